@@ -1645,9 +1645,9 @@ public final class ZoneCompiler {
                 return 100 * digit + readWeekday();
             }
             if (sign == '>' && digit >= 0 && digit <= 6) {
+                // A day that no month has gives a number that is no date either.
                 at += 2;
-                int from = readNumber(2);
-                return from >= 1 && from <= 31 ? 1000 + 10 * from + digit : NO_DATE;
+                return 1000 + 10 * readNumber(2) + digit;
             }
             int day = readNumber(5);
             return day <= 31 ? day : NO_DATE;

@@ -1,3 +1,4 @@
+import java.time.LocalDate;
 import java.util.NoSuchElementException;
 
 /** The promises 1 to 42, one after the other: ordinary numbers, edges and wrong ones. */
@@ -98,16 +99,19 @@ public final class PromiseTest {
         for (int[] at : none) {
             Due.thrown(2, "day of no date", ARGUMENT, () -> x.day(at[0], at[1], at[2]));
         }
-        // Each day of the calendar, there and back; two years' days would already show a wrong leap year.
-        for (int year = 0; year < 32; year++) {
-            for (int month = 1; month <= 12; month++) {
-                ZoneCompiler y = new ZoneCompiler();
-                int day = y.day(year, month, 28);
-                Due.same(3, "date(" + day + ", 0)", y.date(day, 0), year);
-                Due.same(3, "date(" + day + ", 1)", y.date(day, 1), month);
-                Due.same(3, "date(" + day + ", 2)", y.date(day, 2), 28);
-                Due.same(3, "date(" + day + ", 4)", y.date(day, 4), day - y.day(year, 1, 1) + 1);
-                Due.same(3, "date(" + day + ", 5)", y.date(day, 5), 4);
+        // Each day of the calendar; an object is for 512 calls.
+        ZoneCompiler y = x;
+        for (int day = 0; day <= 11687; day++) {
+            if (day % 64 == 0) {
+                y = new ZoneCompiler();
+            }
+            LocalDate date = LocalDate.of(2000, 1, 1).plusDays(day);
+            int year = date.getYear() - 2000;
+            Due.same(2, "day", y.day(year, date.getMonthValue(), date.getDayOfMonth()), day);
+            int[] due = {year, date.getMonthValue(), date.getDayOfMonth(), date.getDayOfWeek().getValue() - 1,
+                date.getDayOfYear(), (date.getDayOfMonth() + 6) / 7};
+            for (int what = 0; what <= 5; what++) {
+                Due.same(3, "date(" + day + ", " + what + ")", y.date(day, what), due[what]);
             }
         }
         Due.same(3, "date(0, 3)", x.date(0, 3), 5);
@@ -213,6 +217,15 @@ public final class PromiseTest {
         Due.same(10, "the first Sunday from April 29, 2000 on", x.eventDay(0, 3, 0), 120);
         Due.thrown(10, "no Sunday from April 29, 2002 on", ELEMENT, () -> x.eventDay(0, 3, 2));
         Due.thrown(10, "no February 29, 2001, nor a Monday behind it", ELEMENT, () -> x.eventDay(0, 4, 1));
+        Due.same(10, "in the first year", x.eventDay(0, 1, 1), 394);
+        Due.same(10, "in the last year", x.eventDay(0, 1, 5), 1461 + 366 + 30);
+        x.addRule(0, 0, 1, 1, 2, 60);
+        x.addRule(0, 31, 1, 31, 0, 0);
+        Due.same(10, "January 1, 2000", x.eventDay(0, 5, 0), 0);
+        Due.same(10, "January 31, 2000", x.eventDay(0, 6, 0), 30);
+        Due.same(11, "a transition on January 1, 2000", x.transition(0, 0, 0), 0);
+        x.dropRule(0, 6);
+        x.dropRule(0, 5);
         Due.thrown(10, "eventDay(0, 5, 32)", INDEX, () -> x.eventDay(0, 5, 32));
         Due.thrown(10, "eventDay(1, 0, 0)", INDEX, () -> x.eventDay(1, 0, 0));
         Due.thrown(10, "eventDay(0, 0, 32)", ARGUMENT, () -> x.eventDay(0, 0, 32));
@@ -274,6 +287,20 @@ public final class PromiseTest {
         Due.same(12, "a minute behind it", z.zone(0, 4), 3);
         Due.same(11, "a minute behind it", z.transition(0, 1, 0), 14401);
         z.dropRule(0, 1);
+        // As many transitions as there can be: each event of 8 rules in 32 years and of 4 changes is one.
+        ZoneCompiler w = new ZoneCompiler();
+        w.addZone(0);
+        for (int i = 0; i < 8; i++) {
+            w.addRule(0, 31, i + 1, 1, 2, i % 2 == 0 ? 60 : 0);
+        }
+        for (int i = 0; i < 4; i++) {
+            w.changeBase(0, 366 * i + 300, 10 * (i + 1));
+        }
+        Due.same(11, "transitions", w.zone(0, 3), 260);
+        Due.same(11, "the last one", w.transition(0, 259, 1), 100);
+        Due.same(11, "the last one", w.transition(0, 259, 2), 40);
+        Due.same(13, "the last offset", w.offset(0, 16832719), 40);
+        Due.same(14, "the last offset", w.offsetAgain(0, 16832719), 40);
         Due.thrown(12, "voidEvent(1, 0, 0)", INDEX, () -> z.voidEvent(1, 0, 0));
         Due.thrown(12, "voidEvent(0, 2, 3)", ELEMENT, () -> z.voidEvent(0, 2, 3));
         Due.thrown(12, "voidEvent(0, -1, 0)", ELEMENT, () -> z.voidEvent(0, -1, 0));
@@ -290,6 +317,20 @@ public final class PromiseTest {
             Due.same(13, "offset(0, " + at[0] + ")", x.offset(0, at[0]), at[1]);
             Due.same(14, "offsetAgain(0, " + at[0] + ")", x.offsetAgain(0, at[0]), at[1]);
             Due.same(15, "toLocal(0, " + at[0] + ")", x.toLocal(0, at[0]), at[0] + at[1]);
+        }
+        // Changes on the last and the first day of a year, between the events of a rule.
+        ZoneCompiler y = new ZoneCompiler();
+        y.addZone(0);
+        y.changeBase(0, 366, 30);
+        y.changeBase(0, 365, 60);
+        y.changeBase(0, 11687, 90);
+        y.changeBase(0, 0, -90);
+        y.addRule(0, 31, 7, 4, 2, 15);
+        int[][] changed = {{-1, 0}, {0, -90}, {1440 * 185, -75}, {1440 * 365 + 74, -75}, {1440 * 365 + 75, 75},
+            {1440 * 366 - 76, 75}, {1440 * 366 - 75, 45}, {16832719, 105}};
+        for (int[] at : changed) {
+            Due.same(13, "offset with changes at " + at[0], y.offset(0, at[0]), at[1]);
+            Due.same(14, "offsetAgain with changes at " + at[0], y.offsetAgain(0, at[0]), at[1]);
         }
         Due.thrown(13, "offset(1, MOST)", INDEX, () -> x.offset(1, MOST));
         Due.thrown(13, "offset(0, -2001)", ARGUMENT, () -> x.offset(0, -2001));
@@ -603,6 +644,7 @@ public final class PromiseTest {
         for (int i = 0; i < due.length; i++) {
             Due.same(31, "agenda(0, " + i + ")", x.agenda(0, i), due[i]);
         }
+        Due.same(31, "agenda at the first", x.agenda(first, 0), 0);
         Due.same(31, "agenda behind the first", x.agenda(first + 1, 0), 100);
         x.shift(0, 2, 60);
         Due.same(31, "of like ones the meeting first", x.agenda(first + 1, 1), 2);
@@ -658,6 +700,8 @@ public final class PromiseTest {
         Due.thrown(33, "not up to the end", ELEMENT, () -> y.free(1411, 1620, 31));
         Due.thrown(33, "backwards", ELEMENT, () -> y.free(100, 99, 1));
         Due.thrown(33, "no time at all", ELEMENT, () -> y.free(100, 100, 1));
+        Due.same(33, "a whole day", y.free(0, 9999, 1440), 0);
+        Due.same(33, "a whole day behind all", y.free(1, 9999, 1440), 1590);
         Due.same(33, "behind all", y.free(16832718, 16832719, 1), 16832718);
         int[][] wrong = {{-2001, 0, 1}, {0, 16832720, 1}, {16832720, 0, 1}, {0, -2001, 1}, {0, 9, 0}, {0, 9, 1441}};
         for (int[] at : wrong) {
@@ -772,7 +816,7 @@ public final class PromiseTest {
     private static void commandErrors() {
         String[] commands = {"zone:841;", "zone:-721;", "base:1,0,0;", "base:0,11688,0;", "base:0,0,-999;", "drop:0,0;",
             "cancel:0,0;", "rule:1,2000,2001,1,1,0,w,0;", "rule:0,1999,2001,1,1,0,w,0;", "rule:0,2000,2032,1,1,0,w,0;",
-            "rule:0,2001,2000,1,1,0,w,0;", "rule:0,0,31,1,1,0,w,0;", "rule:0,2000,2001,13,1,0,w,0;",
+            "rule:0,2000,2131,1,1,0,w,0;", "rule:0,2001,2000,1,1,0,w,0;", "rule:0,0,31,1,1,0,w,0;", "rule:0,2000,2001,13,1,0,w,0;",
             "rule:0,2000,2001,1,0,0,w,0;", "rule:0,2000,2001,1,32,0,w,0;", "rule:0,2000,2001,1,106,0,w,0;",
             "rule:0,2000,2001,1,500,0,w,0;", "rule:0,2000,2001,1,1010,0,w,0;", "rule:0,2000,2001,1,0>0,0,w,0;",
             "rule:0,2000,2001,1,6>32,0,w,0;", "rule:0,2000,2001,1,6>99,0,w,0;", "rule:0,2000,2001,1,1,1440,w,0;",
