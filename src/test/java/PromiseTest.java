@@ -1,20 +1,10 @@
 import java.time.LocalDate;
-import java.util.NoSuchElementException;
 
 /** The promises 1 to 42, one after the other: ordinary numbers, edges and wrong ones. */
 public final class PromiseTest {
 
-    private static final Class<?> INDEX = IndexOutOfBoundsException.class;
-    private static final Class<?> ARGUMENT = IllegalArgumentException.class;
-    private static final Class<?> STATE = IllegalStateException.class;
-    private static final Class<?> ELEMENT = NoSuchElementException.class;
-    private static final Class<?> UNSUPPORTED = UnsupportedOperationException.class;
-
     private static final int LEAST = Integer.MIN_VALUE;
     private static final int MOST = Integer.MAX_VALUE;
-    /** March 26 and October 29, 2000, when summer time begins and ends in zone 0 of europe(). */
-    private static final int SPRING = 85;
-    private static final int AUTUMN = 302;
 
     private PromiseTest() {
     }
@@ -46,40 +36,17 @@ public final class PromiseTest {
         Due.end();
     }
 
-    /** Summer time from 01:00 to 01:00 by the clock of the instants: base 60, saving 60. */
-    private static ZoneCompiler europe() {
-        ZoneCompiler x = new ZoneCompiler();
-        x.addZone(60);
-        x.addRule(0, 31, 3, 506, 602, 60);
-        x.addRule(0, 31, 10, 506, 602, 0);
-        return x;
-    }
-
-    private static void put(ZoneCompiler x, String text) {
-        for (int i = 0; i < text.length(); i++) {
-            x.append(text.charAt(i));
-        }
-    }
-
-    private static String written(ZoneCompiler x, int length) {
-        StringBuilder text = new StringBuilder();
-        for (int i = 0; i < length; i++) {
-            text.append(x.character(i));
-        }
-        return text.toString();
-    }
-
     private static void aNewObject() {
         ZoneCompiler x = new ZoneCompiler();
         for (int what = 0; what <= 5; what++) {
             Due.same(1, "count(" + what + ")", x.count(what), 0);
         }
         Due.same(1, "errorPosition()", x.errorPosition(), -1);
-        Due.thrown(1, "zone(0, 0)", INDEX, () -> x.zone(0, 0));
-        Due.thrown(1, "meeting(0, 0)", INDEX, () -> x.meeting(0, 0));
-        Due.thrown(1, "character(0)", INDEX, () -> x.character(0));
-        Due.thrown(1, "undo()", STATE, x::undo);
-        Due.thrown(1, "restore()", STATE, x::restore);
+        Due.thrown(1, "zone(0, 0)", Due.INDEX, () -> x.zone(0, 0));
+        Due.thrown(1, "meeting(0, 0)", Due.INDEX, () -> x.meeting(0, 0));
+        Due.thrown(1, "character(0)", Due.INDEX, () -> x.character(0));
+        Due.thrown(1, "undo()", Due.STATE, x::undo);
+        Due.thrown(1, "restore()", Due.STATE, x::restore);
     }
 
     private static void calendar() {
@@ -91,13 +58,13 @@ public final class PromiseTest {
         Due.same(2, "day(1, 3, 1)", x.day(1, 3, 1), 425);
         Due.same(2, "day(4, 1, 1)", x.day(4, 1, 1), 1461);
         Due.same(2, "day(31, 12, 31)", x.day(31, 12, 31), 11687);
-        Due.thrown(2, "day(1, 2, 29)", ARGUMENT, () -> x.day(1, 2, 29));
-        Due.thrown(2, "day(0, 2, 30)", ARGUMENT, () -> x.day(0, 2, 30));
-        Due.thrown(2, "day(0, 4, 31)", ARGUMENT, () -> x.day(0, 4, 31));
+        Due.thrown(2, "day(1, 2, 29)", Due.ARGUMENT, () -> x.day(1, 2, 29));
+        Due.thrown(2, "day(0, 2, 30)", Due.ARGUMENT, () -> x.day(0, 2, 30));
+        Due.thrown(2, "day(0, 4, 31)", Due.ARGUMENT, () -> x.day(0, 4, 31));
         int[][] none = {{-1, 1, 1}, {32, 1, 1}, {0, 0, 1}, {0, 13, 1}, {0, 1, 0}, {0, 1, 32}, {LEAST, LEAST, LEAST},
             {MOST, MOST, MOST}};
         for (int[] at : none) {
-            Due.thrown(2, "day of no date", ARGUMENT, () -> x.day(at[0], at[1], at[2]));
+            Due.thrown(2, "day of no date", Due.ARGUMENT, () -> x.day(at[0], at[1], at[2]));
         }
         // Each day of the calendar; an object is for 512 calls.
         ZoneCompiler y = x;
@@ -123,33 +90,33 @@ public final class PromiseTest {
         Due.same(3, "date(59, 5)", x.date(59, 5), 5);
         Due.same(3, "date(6, 5)", x.date(6, 5), 1);
         Due.same(3, "date(7, 5)", x.date(7, 5), 2);
-        Due.thrown(3, "date(-1, 9)", INDEX, () -> x.date(-1, 9));
-        Due.thrown(3, "date(11688, 0)", INDEX, () -> x.date(11688, 0));
-        Due.thrown(3, "date(0, -1)", ARGUMENT, () -> x.date(0, -1));
-        Due.thrown(3, "date(0, 6)", ARGUMENT, () -> x.date(0, 6));
+        Due.thrown(3, "date(-1, 9)", Due.INDEX, () -> x.date(-1, 9));
+        Due.thrown(3, "date(11688, 0)", Due.INDEX, () -> x.date(11688, 0));
+        Due.thrown(3, "date(0, -1)", Due.ARGUMENT, () -> x.date(0, -1));
+        Due.thrown(3, "date(0, 6)", Due.ARGUMENT, () -> x.date(0, 6));
     }
 
     private static void zonesAndRules() {
         ZoneCompiler x = new ZoneCompiler();
-        Due.thrown(4, "addZone(-721)", ARGUMENT, () -> x.addZone(-721));
-        Due.thrown(4, "addZone(841)", ARGUMENT, () -> x.addZone(841));
+        Due.thrown(4, "addZone(-721)", Due.ARGUMENT, () -> x.addZone(-721));
+        Due.thrown(4, "addZone(841)", Due.ARGUMENT, () -> x.addZone(841));
         for (int i = 0; i < 6; i++) {
             Due.same(4, "addZone", x.addZone(i == 0 ? -720 : 840), i);
         }
-        Due.thrown(4, "a seventh zone", STATE, () -> x.addZone(0));
-        Due.thrown(4, "a seventh zone of no base", ARGUMENT, () -> x.addZone(900));
+        Due.thrown(4, "a seventh zone", Due.STATE, () -> x.addZone(0));
+        Due.thrown(4, "a seventh zone of no base", Due.ARGUMENT, () -> x.addZone(900));
         Due.same(8, "zone(0, 0)", x.zone(0, 0), -720);
         Due.same(8, "zone(5, 0)", x.zone(5, 0), 840);
 
-        Due.thrown(5, "changeBase(6, ..)", INDEX, () -> x.changeBase(6, -1, 0));
-        Due.thrown(5, "changeBase of no day", ARGUMENT, () -> x.changeBase(0, 11688, 0));
-        Due.thrown(5, "changeBase of no day", ARGUMENT, () -> x.changeBase(0, -1, 0));
-        Due.thrown(5, "changeBase to no base", ARGUMENT, () -> x.changeBase(0, 0, 841));
+        Due.thrown(5, "changeBase(6, ..)", Due.INDEX, () -> x.changeBase(6, -1, 0));
+        Due.thrown(5, "changeBase of no day", Due.ARGUMENT, () -> x.changeBase(0, 11688, 0));
+        Due.thrown(5, "changeBase of no day", Due.ARGUMENT, () -> x.changeBase(0, -1, 0));
+        Due.thrown(5, "changeBase to no base", Due.ARGUMENT, () -> x.changeBase(0, 0, 841));
         for (int i = 0; i < 4; i++) {
             Due.same(5, "changeBase", x.changeBase(0, i == 3 ? 11687 : i, i), i);
         }
-        Due.thrown(5, "a fifth change", STATE, () -> x.changeBase(0, 5, 0));
-        Due.thrown(5, "a fifth change of no day", ARGUMENT, () -> x.changeBase(0, -5, 0));
+        Due.thrown(5, "a fifth change", Due.STATE, () -> x.changeBase(0, 5, 0));
+        Due.thrown(5, "a fifth change of no day", Due.ARGUMENT, () -> x.changeBase(0, -5, 0));
         Due.same(8, "zone(0, 2)", x.zone(0, 2), 4);
 
         int[][] wrong = {{3100, 1, 1, 0, 0}, {-1, 1, 1, 0, 0}, {32, 1, 1, 0, 0}, {3200, 1, 1, 0, 0}, {31, 0, 1, 0, 0},
@@ -159,40 +126,40 @@ public final class PromiseTest {
             {31, 1, 1, 14400, 0}, {31, 1, 1, 0, -1}, {31, 1, 1, 0, 121}, {LEAST, LEAST, LEAST, LEAST, LEAST},
             {MOST, MOST, MOST, MOST, MOST}, {31, 1, 1, MOST, 0}, {31, 1, MOST, 0, 0}};
         for (int[] at : wrong) {
-            Due.thrown(6, "addRule of " + at[0] + ", " + at[1] + ", " + at[2] + ", " + at[3] + ", " + at[4], ARGUMENT,
+            Due.thrown(6, "addRule of " + at[0] + ", " + at[1] + ", " + at[2] + ", " + at[3] + ", " + at[4], Due.ARGUMENT,
                     () -> x.addRule(1, at[0], at[1], at[2], at[3], at[4]));
         }
-        Due.thrown(6, "addRule(-1, ..)", INDEX, () -> x.addRule(-1, -1, 0, 0, 0, 0));
+        Due.thrown(6, "addRule(-1, ..)", Due.INDEX, () -> x.addRule(-1, -1, 0, 0, 0, 0));
         int[] dates = {1, 31, 100, 406, 500, 506, 1010, 1316};
         for (int i = 0; i < 8; i++) {
             Due.same(6, "addRule", x.addRule(1, 100 * i + 31, i + 5, dates[i], 14380 + i % 3, 15 * i), i);
         }
-        Due.thrown(6, "a ninth rule", STATE, () -> x.addRule(1, 31, 1, 1, 0, 0));
-        Due.thrown(6, "a ninth rule of no month", ARGUMENT, () -> x.addRule(1, 31, 0, 1, 0, 0));
+        Due.thrown(6, "a ninth rule", Due.STATE, () -> x.addRule(1, 31, 1, 1, 0, 0));
+        Due.thrown(6, "a ninth rule of no month", Due.ARGUMENT, () -> x.addRule(1, 31, 0, 1, 0, 0));
 
         int[] last = {7, 31, 12, 1316, 1438, 1, 105};
         for (int what = 0; what <= 6; what++) {
             Due.same(9, "rule(1, 7, " + what + ")", x.rule(1, 7, what), last[what]);
         }
-        Due.thrown(9, "rule(1, 8, 9)", INDEX, () -> x.rule(1, 8, 9));
-        Due.thrown(9, "rule(1, -1, 0)", INDEX, () -> x.rule(1, -1, 0));
-        Due.thrown(9, "rule(6, 0, 0)", INDEX, () -> x.rule(6, 0, 0));
-        Due.thrown(9, "rule(1, 0, 7)", ARGUMENT, () -> x.rule(1, 0, 7));
-        Due.thrown(9, "rule(1, 0, -1)", ARGUMENT, () -> x.rule(1, 0, -1));
+        Due.thrown(9, "rule(1, 8, 9)", Due.INDEX, () -> x.rule(1, 8, 9));
+        Due.thrown(9, "rule(1, -1, 0)", Due.INDEX, () -> x.rule(1, -1, 0));
+        Due.thrown(9, "rule(6, 0, 0)", Due.INDEX, () -> x.rule(6, 0, 0));
+        Due.thrown(9, "rule(1, 0, 7)", Due.ARGUMENT, () -> x.rule(1, 0, 7));
+        Due.thrown(9, "rule(1, 0, -1)", Due.ARGUMENT, () -> x.rule(1, 0, -1));
 
-        Due.thrown(7, "dropRule(1, 8)", INDEX, () -> x.dropRule(1, 8));
-        Due.thrown(7, "dropRule(6, 0)", INDEX, () -> x.dropRule(6, 0));
+        Due.thrown(7, "dropRule(1, 8)", Due.INDEX, () -> x.dropRule(1, 8));
+        Due.thrown(7, "dropRule(6, 0)", Due.INDEX, () -> x.dropRule(6, 0));
         Due.same(7, "dropRule(1, 2)", x.dropRule(1, 2), 7);
         Due.same(7, "rule(1, 1, 3)", x.rule(1, 1, 3), 31);
         Due.same(7, "rule(1, 2, 3)", x.rule(1, 2, 3), 406);
         Due.same(7, "rule(1, 6, 3)", x.rule(1, 6, 3), 1316);
         Due.same(7, "dropRule(1, 6)", x.dropRule(1, 6), 6);
         Due.same(7, "zone(1, 1)", x.zone(1, 1), 6);
-        Due.thrown(8, "zone(6, 9)", INDEX, () -> x.zone(6, 9));
-        Due.thrown(8, "zone(0, 9)", ARGUMENT, () -> x.zone(0, 9));
-        Due.thrown(8, "zone(0, -1)", ARGUMENT, () -> x.zone(0, -1));
+        Due.thrown(8, "zone(6, 9)", Due.INDEX, () -> x.zone(6, 9));
+        Due.thrown(8, "zone(0, 9)", Due.ARGUMENT, () -> x.zone(0, 9));
+        Due.thrown(8, "zone(0, -1)", Due.ARGUMENT, () -> x.zone(0, -1));
 
-        ZoneCompiler y = europe();
+        ZoneCompiler y = Given.europe();
         int[] numbers = {60, 2, 0, 64, 0, 64, 60, 120, 60};
         for (int what = 0; what <= 8; what++) {
             Due.same(8, "zone(0, " + what + ")", y.zone(0, what), numbers[what]);
@@ -209,14 +176,14 @@ public final class PromiseTest {
         x.addRule(0, 31, 2, 1290, 0, 0);
         Due.same(10, "February 29", x.eventDay(0, 0, 0), 59);
         Due.same(10, "February 29", x.eventDay(0, 0, 28), 365 * 28 + 7 + 59);
-        Due.thrown(10, "no February 29", ELEMENT, () -> x.eventDay(0, 0, 1));
-        Due.thrown(10, "ahead of the first year", ELEMENT, () -> x.eventDay(0, 1, 0));
-        Due.thrown(10, "behind the last year", ELEMENT, () -> x.eventDay(0, 1, 6));
+        Due.thrown(10, "no February 29", Due.ELEMENT, () -> x.eventDay(0, 0, 1));
+        Due.thrown(10, "ahead of the first year", Due.ELEMENT, () -> x.eventDay(0, 1, 0));
+        Due.thrown(10, "behind the last year", Due.ELEMENT, () -> x.eventDay(0, 1, 6));
         Due.same(10, "the last Monday of January 2001", x.eventDay(0, 1, 1), 366 + 28);
         Due.same(10, "the 4th Monday of February 2000", x.eventDay(0, 2, 0), 58);
         Due.same(10, "the first Sunday from April 29, 2000 on", x.eventDay(0, 3, 0), 120);
-        Due.thrown(10, "no Sunday from April 29, 2002 on", ELEMENT, () -> x.eventDay(0, 3, 2));
-        Due.thrown(10, "no February 29, 2001, nor a Monday behind it", ELEMENT, () -> x.eventDay(0, 4, 1));
+        Due.thrown(10, "no Sunday from April 29, 2002 on", Due.ELEMENT, () -> x.eventDay(0, 3, 2));
+        Due.thrown(10, "no February 29, 2001, nor a Monday behind it", Due.ELEMENT, () -> x.eventDay(0, 4, 1));
         Due.same(10, "in the first year", x.eventDay(0, 1, 1), 394);
         Due.same(10, "in the last year", x.eventDay(0, 1, 5), 1461 + 366 + 30);
         x.addRule(0, 0, 1, 1, 2, 60);
@@ -226,25 +193,25 @@ public final class PromiseTest {
         Due.same(11, "a transition on January 1, 2000", x.transition(0, 0, 0), 0);
         x.dropRule(0, 6);
         x.dropRule(0, 5);
-        Due.thrown(10, "eventDay(0, 5, 32)", INDEX, () -> x.eventDay(0, 5, 32));
-        Due.thrown(10, "eventDay(1, 0, 0)", INDEX, () -> x.eventDay(1, 0, 0));
-        Due.thrown(10, "eventDay(0, 0, 32)", ARGUMENT, () -> x.eventDay(0, 0, 32));
-        Due.thrown(10, "eventDay(0, 0, -1)", ARGUMENT, () -> x.eventDay(0, 0, -1));
+        Due.thrown(10, "eventDay(0, 5, 32)", Due.INDEX, () -> x.eventDay(0, 5, 32));
+        Due.thrown(10, "eventDay(1, 0, 0)", Due.INDEX, () -> x.eventDay(1, 0, 0));
+        Due.thrown(10, "eventDay(0, 0, 32)", Due.ARGUMENT, () -> x.eventDay(0, 0, 32));
+        Due.thrown(10, "eventDay(0, 0, -1)", Due.ARGUMENT, () -> x.eventDay(0, 0, -1));
     }
 
     private static void transitions() {
-        ZoneCompiler x = europe();
-        int[] first = {1440 * SPRING + 60, 60, 120, 60, 0};
-        int[] second = {1440 * AUTUMN + 60, 120, 60, 0, 1};
+        ZoneCompiler x = Given.europe();
+        int[] first = {1440 * Given.SPRING + 60, 60, 120, 60, 0};
+        int[] second = {1440 * Given.AUTUMN + 60, 120, 60, 0, 1};
         for (int what = 0; what <= 4; what++) {
             Due.same(11, "transition(0, 0, " + what + ")", x.transition(0, 0, what), first[what]);
             Due.same(11, "transition(0, 1, " + what + ")", x.transition(0, 1, what), second[what]);
         }
-        Due.thrown(11, "transition(1, 0, 0)", INDEX, () -> x.transition(1, 0, 0));
-        Due.thrown(11, "transition(0, 64, 9)", ELEMENT, () -> x.transition(0, 64, 9));
-        Due.thrown(11, "transition(0, -1, 0)", ELEMENT, () -> x.transition(0, -1, 0));
-        Due.thrown(11, "transition(0, 63, 5)", ARGUMENT, () -> x.transition(0, 63, 5));
-        Due.thrown(11, "transition(0, 63, -1)", ARGUMENT, () -> x.transition(0, 63, -1));
+        Due.thrown(11, "transition(1, 0, 0)", Due.INDEX, () -> x.transition(1, 0, 0));
+        Due.thrown(11, "transition(0, 64, 9)", Due.ELEMENT, () -> x.transition(0, 64, 9));
+        Due.thrown(11, "transition(0, -1, 0)", Due.ELEMENT, () -> x.transition(0, -1, 0));
+        Due.thrown(11, "transition(0, 63, 5)", Due.ARGUMENT, () -> x.transition(0, 63, 5));
+        Due.thrown(11, "transition(0, 63, -1)", Due.ARGUMENT, () -> x.transition(0, 63, -1));
 
         // By the clocks: wall less base and saving, base less base, instants as they are.
         ZoneCompiler y = new ZoneCompiler();
@@ -301,17 +268,17 @@ public final class PromiseTest {
         Due.same(11, "the last one", w.transition(0, 259, 2), 40);
         Due.same(13, "the last offset", w.offset(0, 16832719), 40);
         Due.same(14, "the last offset", w.offsetAgain(0, 16832719), 40);
-        Due.thrown(12, "voidEvent(1, 0, 0)", INDEX, () -> z.voidEvent(1, 0, 0));
-        Due.thrown(12, "voidEvent(0, 2, 3)", ELEMENT, () -> z.voidEvent(0, 2, 3));
-        Due.thrown(12, "voidEvent(0, -1, 0)", ELEMENT, () -> z.voidEvent(0, -1, 0));
-        Due.thrown(12, "voidEvent(0, 0, 3)", ARGUMENT, () -> z.voidEvent(0, 0, 3));
-        Due.thrown(12, "voidEvent(0, 0, -1)", ARGUMENT, () -> z.voidEvent(0, 0, -1));
+        Due.thrown(12, "voidEvent(1, 0, 0)", Due.INDEX, () -> z.voidEvent(1, 0, 0));
+        Due.thrown(12, "voidEvent(0, 2, 3)", Due.ELEMENT, () -> z.voidEvent(0, 2, 3));
+        Due.thrown(12, "voidEvent(0, -1, 0)", Due.ELEMENT, () -> z.voidEvent(0, -1, 0));
+        Due.thrown(12, "voidEvent(0, 0, 3)", Due.ARGUMENT, () -> z.voidEvent(0, 0, 3));
+        Due.thrown(12, "voidEvent(0, 0, -1)", Due.ARGUMENT, () -> z.voidEvent(0, 0, -1));
     }
 
     private static void offsets() {
-        ZoneCompiler x = europe();
-        int spring = 1440 * SPRING + 60;
-        int[][] due = {{-2000, 60}, {spring - 1, 60}, {spring, 120}, {1440 * AUTUMN + 59, 120}, {1440 * AUTUMN + 60, 60},
+        ZoneCompiler x = Given.europe();
+        int spring = 1440 * Given.SPRING + 60;
+        int[][] due = {{-2000, 60}, {spring - 1, 60}, {spring, 120}, {1440 * Given.AUTUMN + 59, 120}, {1440 * Given.AUTUMN + 60, 60},
             {16832719, 60}};
         for (int[] at : due) {
             Due.same(13, "offset(0, " + at[0] + ")", x.offset(0, at[0]), at[1]);
@@ -332,22 +299,22 @@ public final class PromiseTest {
             Due.same(13, "offset with changes at " + at[0], y.offset(0, at[0]), at[1]);
             Due.same(14, "offsetAgain with changes at " + at[0], y.offsetAgain(0, at[0]), at[1]);
         }
-        Due.thrown(13, "offset(1, MOST)", INDEX, () -> x.offset(1, MOST));
-        Due.thrown(13, "offset(0, -2001)", ARGUMENT, () -> x.offset(0, -2001));
-        Due.thrown(13, "offset(0, 16832720)", ARGUMENT, () -> x.offset(0, 16832720));
-        Due.thrown(14, "offsetAgain(1, MOST)", INDEX, () -> x.offsetAgain(1, MOST));
-        Due.thrown(14, "offsetAgain(0, -2001)", ARGUMENT, () -> x.offsetAgain(0, -2001));
-        Due.thrown(14, "offsetAgain(0, 16832720)", ARGUMENT, () -> x.offsetAgain(0, 16832720));
-        Due.thrown(15, "toLocal(1, MOST)", INDEX, () -> x.toLocal(1, MOST));
-        Due.thrown(15, "toLocal(0, -2001)", ARGUMENT, () -> x.toLocal(0, -2001));
-        Due.thrown(15, "toLocal(0, 16832720)", ARGUMENT, () -> x.toLocal(0, 16832720));
+        Due.thrown(13, "offset(1, MOST)", Due.INDEX, () -> x.offset(1, MOST));
+        Due.thrown(13, "offset(0, -2001)", Due.ARGUMENT, () -> x.offset(0, -2001));
+        Due.thrown(13, "offset(0, 16832720)", Due.ARGUMENT, () -> x.offset(0, 16832720));
+        Due.thrown(14, "offsetAgain(1, MOST)", Due.INDEX, () -> x.offsetAgain(1, MOST));
+        Due.thrown(14, "offsetAgain(0, -2001)", Due.ARGUMENT, () -> x.offsetAgain(0, -2001));
+        Due.thrown(14, "offsetAgain(0, 16832720)", Due.ARGUMENT, () -> x.offsetAgain(0, 16832720));
+        Due.thrown(15, "toLocal(1, MOST)", Due.INDEX, () -> x.toLocal(1, MOST));
+        Due.thrown(15, "toLocal(0, -2001)", Due.ARGUMENT, () -> x.toLocal(0, -2001));
+        Due.thrown(15, "toLocal(0, 16832720)", Due.ARGUMENT, () -> x.toLocal(0, 16832720));
     }
 
     private static void conversions() {
-        ZoneCompiler x = europe();
+        ZoneCompiler x = Given.europe();
         x.addZone(-300);
-        int gap = 1440 * SPRING + 120;
-        int fold = 1440 * AUTUMN + 120;
+        int gap = 1440 * Given.SPRING + 120;
+        int fold = 1440 * Given.AUTUMN + 120;
         int[][] many = {{0, 1}, {gap - 1, 1}, {gap, 0}, {gap + 59, 0}, {gap + 60, 1}, {fold - 1, 1}, {fold, 2},
             {fold + 59, 2}, {fold + 60, 1}, {16830719, 1}};
         for (int[] at : many) {
@@ -360,34 +327,34 @@ public final class PromiseTest {
         Due.same(19, "mode 0 in a gap", x.toInstant(0, local, 0), local - 60);
         Due.same(19, "mode 1 in a gap", x.toInstant(0, local, 1), local - 120);
         Due.same(19, "mode 2 in a gap", x.toInstant(0, local, 2), gap - 60);
-        Due.thrown(19, "mode 3 in a gap", UNSUPPORTED, () -> x.toInstant(0, local, 3));
+        Due.thrown(19, "mode 3 in a gap", Due.UNSUPPORTED, () -> x.toInstant(0, local, 3));
         Due.same(19, "mode 0 in a fold", x.toInstant(0, fold + 20, 0), fold - 100);
         Due.same(19, "mode 1 in a fold", x.toInstant(0, fold + 20, 1), fold - 40);
         Due.same(19, "mode 2 in a fold", x.toInstant(0, fold + 20, 2), fold - 100);
-        Due.thrown(19, "mode 3 in a fold", UNSUPPORTED, () -> x.toInstant(0, fold + 20, 3));
+        Due.thrown(19, "mode 3 in a fold", Due.UNSUPPORTED, () -> x.toInstant(0, fold + 20, 3));
         Due.same(19, "mode 3 elsewhere", x.toInstant(0, fold + 60, 3), fold);
         Due.same(19, "an instant below 0", x.toInstant(0, 0, 0), -60);
         Due.same(20, "convert", x.convert(0, 1000, 1, 3), 640);
         Due.same(20, "convert to itself moves out of a gap", x.convert(0, local, 0, 0), local + 60);
         Due.same(20, "convert below 0", x.convert(0, 0, 1, 0), -360);
         Due.same(20, "convert behind the calendar", x.convert(1, 16830719, 0, 0), 16830719 + 360);
-        Due.thrown(20, "convert in a gap", UNSUPPORTED, () -> x.convert(0, local, 1, 3));
-        Due.thrown(20, "convert to no zone", INDEX, () -> x.convert(0, -1, 2, 9));
-        Due.thrown(20, "convert from no zone", INDEX, () -> x.convert(2, -1, 0, 9));
+        Due.thrown(20, "convert in a gap", Due.UNSUPPORTED, () -> x.convert(0, local, 1, 3));
+        Due.thrown(20, "convert to no zone", Due.INDEX, () -> x.convert(0, -1, 2, 9));
+        Due.thrown(20, "convert from no zone", Due.INDEX, () -> x.convert(2, -1, 0, 9));
         for (int no : new int[] {-1, 16830720, LEAST, MOST}) {
-            Due.thrown(16, "instants of no local time", ARGUMENT, () -> x.instants(0, no));
-            Due.thrown(17, "instantsAgain of no local time", ARGUMENT, () -> x.instantsAgain(0, no));
-            Due.thrown(18, "cause of no local time", ARGUMENT, () -> x.cause(0, no));
-            Due.thrown(19, "toInstant of no local time", ARGUMENT, () -> x.toInstant(0, no, 0));
-            Due.thrown(20, "convert of no local time", ARGUMENT, () -> x.convert(0, no, 0, 0));
-            Due.thrown(16, "instants of no zone", INDEX, () -> x.instants(2, no));
-            Due.thrown(17, "instantsAgain of no zone", INDEX, () -> x.instantsAgain(-1, no));
-            Due.thrown(18, "cause of no zone", INDEX, () -> x.cause(2, no));
-            Due.thrown(19, "toInstant of no zone", INDEX, () -> x.toInstant(2, no, 9));
+            Due.thrown(16, "instants of no local time", Due.ARGUMENT, () -> x.instants(0, no));
+            Due.thrown(17, "instantsAgain of no local time", Due.ARGUMENT, () -> x.instantsAgain(0, no));
+            Due.thrown(18, "cause of no local time", Due.ARGUMENT, () -> x.cause(0, no));
+            Due.thrown(19, "toInstant of no local time", Due.ARGUMENT, () -> x.toInstant(0, no, 0));
+            Due.thrown(20, "convert of no local time", Due.ARGUMENT, () -> x.convert(0, no, 0, 0));
+            Due.thrown(16, "instants of no zone", Due.INDEX, () -> x.instants(2, no));
+            Due.thrown(17, "instantsAgain of no zone", Due.INDEX, () -> x.instantsAgain(-1, no));
+            Due.thrown(18, "cause of no zone", Due.INDEX, () -> x.cause(2, no));
+            Due.thrown(19, "toInstant of no zone", Due.INDEX, () -> x.toInstant(2, no, 9));
         }
-        Due.thrown(19, "toInstant of mode 4", ARGUMENT, () -> x.toInstant(0, gap, 4));
-        Due.thrown(19, "toInstant of mode -1", ARGUMENT, () -> x.toInstant(0, gap, -1));
-        Due.thrown(20, "convert of mode 4", ARGUMENT, () -> x.convert(0, gap, 0, 4));
+        Due.thrown(19, "toInstant of mode 4", Due.ARGUMENT, () -> x.toInstant(0, gap, 4));
+        Due.thrown(19, "toInstant of mode -1", Due.ARGUMENT, () -> x.toInstant(0, gap, -1));
+        Due.thrown(20, "convert of mode 4", Due.ARGUMENT, () -> x.convert(0, gap, 0, 4));
     }
 
     /** Two changes back in short succession give three instants; a change forth and back ends a gap early. */
@@ -422,25 +389,25 @@ public final class PromiseTest {
     }
 
     private static void lengths() {
-        ZoneCompiler x = europe();
+        ZoneCompiler x = Given.europe();
         Due.same(21, "an ordinary day", x.dayLength(0, 0), 1440);
-        Due.same(21, "a short day", x.dayLength(0, SPRING), 1380);
-        Due.same(21, "a long day", x.dayLength(0, AUTUMN), 1500);
+        Due.same(21, "a short day", x.dayLength(0, Given.SPRING), 1380);
+        Due.same(21, "a long day", x.dayLength(0, Given.AUTUMN), 1500);
         Due.same(21, "the last day", x.dayLength(0, 11687), 1440);
-        Due.thrown(21, "dayLength(0, 11688)", INDEX, () -> x.dayLength(0, 11688));
-        Due.thrown(21, "dayLength(0, -1)", INDEX, () -> x.dayLength(0, -1));
-        Due.thrown(21, "dayLength(1, 0)", INDEX, () -> x.dayLength(1, 0));
+        Due.thrown(21, "dayLength(0, 11688)", Due.INDEX, () -> x.dayLength(0, 11688));
+        Due.thrown(21, "dayLength(0, -1)", Due.INDEX, () -> x.dayLength(0, -1));
+        Due.thrown(21, "dayLength(1, 0)", Due.INDEX, () -> x.dayLength(1, 0));
 
         int[] account = {527040, 60, 60, 527040};
         for (int what = 0; what <= 3; what++) {
             Due.same(22, "account(0, 0, " + what + ")", x.account(0, 0, what), account[what]);
         }
         Due.same(22, "the local times of 2031", x.account(0, 31, 3), 525600);
-        Due.thrown(22, "account(1, 32, 0)", INDEX, () -> x.account(1, 32, 0));
-        Due.thrown(22, "account(0, 32, 0)", ARGUMENT, () -> x.account(0, 32, 0));
-        Due.thrown(22, "account(0, -1, 0)", ARGUMENT, () -> x.account(0, -1, 0));
-        Due.thrown(22, "account(0, 0, 4)", ARGUMENT, () -> x.account(0, 0, 4));
-        Due.thrown(22, "account(0, 0, -1)", ARGUMENT, () -> x.account(0, 0, -1));
+        Due.thrown(22, "account(1, 32, 0)", Due.INDEX, () -> x.account(1, 32, 0));
+        Due.thrown(22, "account(0, 32, 0)", Due.ARGUMENT, () -> x.account(0, 32, 0));
+        Due.thrown(22, "account(0, -1, 0)", Due.ARGUMENT, () -> x.account(0, -1, 0));
+        Due.thrown(22, "account(0, 0, 4)", Due.ARGUMENT, () -> x.account(0, 0, 4));
+        Due.thrown(22, "account(0, 0, -1)", Due.ARGUMENT, () -> x.account(0, 0, -1));
 
         // A whole day is left out; its midnight lies in the gap, so that the day begins at the transition.
         ZoneCompiler y = new ZoneCompiler();
@@ -463,13 +430,13 @@ public final class PromiseTest {
     }
 
     private static void addMeeting() {
-        ZoneCompiler x = europe();
+        ZoneCompiler x = Given.europe();
         int[][] wrong = {{-1, 0, 60, 0, 1}, {11688, 0, 60, 0, 1}, {0, -1, 60, 0, 1}, {0, 1440, 60, 0, 1}, {0, 0, 0, 0, 1},
             {0, 0, 1441, 0, 1}, {0, 0, 60, -1, 1}, {0, 0, 60, 4, 1}, {0, 0, 60, 0, 0}, {0, 0, 60, 0, 41},
             {MOST, MOST, MOST, MOST, MOST}, {LEAST, LEAST, LEAST, LEAST, LEAST}};
         for (int[] at : wrong) {
-            Due.thrown(23, "addMeeting", ARGUMENT, () -> x.addMeeting(0, at[0], at[1], at[2], at[3], at[4]));
-            Due.thrown(23, "addMeeting(1, ..)", INDEX, () -> x.addMeeting(1, at[0], at[1], at[2], at[3], at[4]));
+            Due.thrown(23, "addMeeting", Due.ARGUMENT, () -> x.addMeeting(0, at[0], at[1], at[2], at[3], at[4]));
+            Due.thrown(23, "addMeeting(1, ..)", Due.INDEX, () -> x.addMeeting(1, at[0], at[1], at[2], at[3], at[4]));
         }
         Due.same(23, "addMeeting", x.addMeeting(0, 7, 1439, 1440, 3, 40), 0);
         int[] due = {0, 7, 1439, 1440, 3, 0, 1, 0, 40, 40};
@@ -480,12 +447,12 @@ public final class PromiseTest {
             Due.same(23, "addMeeting", x.addMeeting(0, 11687, 0, 1, 0, 2), i);
         }
         Due.same(27, "occurrences up to the last day", x.meeting(9, 8), 1);
-        Due.thrown(23, "an eleventh meeting", STATE, () -> x.addMeeting(0, 0, 0, 1, 0, 1));
-        Due.thrown(23, "an eleventh meeting of no day", ARGUMENT, () -> x.addMeeting(0, -1, 0, 1, 0, 1));
-        Due.thrown(27, "meeting(10, 10)", INDEX, () -> x.meeting(10, 10));
-        Due.thrown(27, "meeting(-1, 0)", INDEX, () -> x.meeting(-1, 0));
-        Due.thrown(27, "meeting(0, 10)", ARGUMENT, () -> x.meeting(0, 10));
-        Due.thrown(27, "meeting(0, -1)", ARGUMENT, () -> x.meeting(0, -1));
+        Due.thrown(23, "an eleventh meeting", Due.STATE, () -> x.addMeeting(0, 0, 0, 1, 0, 1));
+        Due.thrown(23, "an eleventh meeting of no day", Due.ARGUMENT, () -> x.addMeeting(0, -1, 0, 1, 0, 1));
+        Due.thrown(27, "meeting(10, 10)", Due.INDEX, () -> x.meeting(10, 10));
+        Due.thrown(27, "meeting(-1, 0)", Due.INDEX, () -> x.meeting(-1, 0));
+        Due.thrown(27, "meeting(0, 10)", Due.ARGUMENT, () -> x.meeting(0, 10));
+        Due.thrown(27, "meeting(0, -1)", Due.ARGUMENT, () -> x.meeting(0, -1));
     }
 
     private static void days(ZoneCompiler x, int... due) {
@@ -495,7 +462,7 @@ public final class PromiseTest {
     }
 
     private static void recur() {
-        ZoneCompiler x = europe();
+        ZoneCompiler x = Given.europe();
         // Day 5 is Thursday, January 6, 2000.
         x.addMeeting(0, 5, 600, 60, 0, 4);
         Due.same(24, "every 60 days", x.recur(0, 0, 60, 0), 4);
@@ -516,23 +483,23 @@ public final class PromiseTest {
             {1, 1, -1}, {2, 25, 0}, {3, 25, 0}, {2, 0, 0}, {3, 0, 0}, {0, 1, 1}, {2, 1, 1}, {3, 1, 1},
             {LEAST, LEAST, LEAST}, {MOST, MOST, MOST}};
         for (int[] at : wrong) {
-            Due.thrown(24, "recur", ARGUMENT, () -> x.recur(0, at[0], at[1], at[2]));
-            Due.thrown(24, "recur of no meeting", INDEX, () -> x.recur(1, at[0], at[1], at[2]));
+            Due.thrown(24, "recur", Due.ARGUMENT, () -> x.recur(0, at[0], at[1], at[2]));
+            Due.thrown(24, "recur of no meeting", Due.INDEX, () -> x.recur(1, at[0], at[1], at[2]));
         }
         Due.same(24, "what is wrong changes nothing", x.meeting(0, 5), 1);
 
         // The 31st, and the 5th Saturday: months without are left out, and count for none.
-        ZoneCompiler y = europe();
+        ZoneCompiler y = Given.europe();
         y.addMeeting(0, 30, 0, 1, 0, 3);
         y.recur(0, 2, 1, 0);
         days(y, 30, 90, 151);
-        ZoneCompiler z = europe();
+        ZoneCompiler z = Given.europe();
         z.addMeeting(0, 28, 0, 1, 0, 3);
         z.recur(0, 3, 1, 0);
         days(z, 28, 119, 210);
 
         // At the end of the calendar, day 11687 being a Wednesday, there may be none at all.
-        ZoneCompiler w = europe();
+        ZoneCompiler w = Given.europe();
         w.addMeeting(0, 11687, 0, 1, 0, 40);
         Due.same(24, "no Tuesday is left", w.recur(0, 1, 1, 2), 0);
         Due.same(24, "no Thursday is left", w.recur(0, 1, 1, 8), 0);
@@ -547,51 +514,51 @@ public final class PromiseTest {
     }
 
     private static void cancelAndShift() {
-        ZoneCompiler x = europe();
+        ZoneCompiler x = Given.europe();
         x.addMeeting(0, 11600, 0, 60, 0, 40);
         Due.same(25, "cancel(0, 39)", x.cancel(0, 39), 1);
         Due.same(25, "it is cancelled", x.occurrence(0, 39, 3), 1);
         Due.same(25, "the others are not", x.meeting(0, 9), 39);
         Due.same(25, "cancel(0, 39) again", x.cancel(0, 39), 0);
         Due.same(25, "it takes place", x.occurrence(0, 39, 3), 0);
-        Due.thrown(25, "cancel(0, 40)", INDEX, () -> x.cancel(0, 40));
-        Due.thrown(25, "cancel(0, -1)", INDEX, () -> x.cancel(0, -1));
-        Due.thrown(25, "cancel(1, 0)", INDEX, () -> x.cancel(1, 0));
+        Due.thrown(25, "cancel(0, 40)", Due.INDEX, () -> x.cancel(0, 40));
+        Due.thrown(25, "cancel(0, -1)", Due.INDEX, () -> x.cancel(0, -1));
+        Due.thrown(25, "cancel(1, 0)", Due.INDEX, () -> x.cancel(1, 0));
         Due.same(26, "shift(0, 0, 1440)", x.shift(0, 0, 1440), 0);
         Due.same(26, "shift(0, 0, -1440)", x.shift(0, 0, -1440), 1440);
         Due.same(26, "the shift", x.occurrence(0, 0, 2), -1440);
         Due.same(26, "the local time", x.occurrence(0, 0, 1), 1440 * 11599);
         Due.same(26, "the day stays", x.occurrence(0, 0, 0), 11600);
         Due.same(26, "the instant", x.occurrence(0, 0, 5), 1440 * 11599 - 120);
-        Due.thrown(26, "shift(0, 40, 9999)", INDEX, () -> x.shift(0, 40, 9999));
-        Due.thrown(26, "shift(0, -1, 0)", INDEX, () -> x.shift(0, -1, 0));
-        Due.thrown(26, "shift(1, 0, 0)", INDEX, () -> x.shift(1, 0, 0));
-        Due.thrown(26, "shift(0, 0, 1441)", ARGUMENT, () -> x.shift(0, 0, 1441));
-        Due.thrown(26, "shift(0, 0, -1441)", ARGUMENT, () -> x.shift(0, 0, -1441));
+        Due.thrown(26, "shift(0, 40, 9999)", Due.INDEX, () -> x.shift(0, 40, 9999));
+        Due.thrown(26, "shift(0, -1, 0)", Due.INDEX, () -> x.shift(0, -1, 0));
+        Due.thrown(26, "shift(1, 0, 0)", Due.INDEX, () -> x.shift(1, 0, 0));
+        Due.thrown(26, "shift(0, 0, 1441)", Due.ARGUMENT, () -> x.shift(0, 0, 1441));
+        Due.thrown(26, "shift(0, 0, -1441)", Due.ARGUMENT, () -> x.shift(0, 0, -1441));
     }
 
     private static void occurrences() {
-        ZoneCompiler x = europe();
+        ZoneCompiler x = Given.europe();
         // Mode 3 at 02:30: void in the gap of day 85, elsewhere not.
-        x.addMeeting(0, SPRING - 1, 150, 60, 3, 3);
-        int[] ordinary = {SPRING - 1, 1440 * (SPRING - 1) + 150, 0, 0, 1, 1440 * (SPRING - 1) + 90};
+        x.addMeeting(0, Given.SPRING - 1, 150, 60, 3, 3);
+        int[] ordinary = {Given.SPRING - 1, 1440 * (Given.SPRING - 1) + 150, 0, 0, 1, 1440 * (Given.SPRING - 1) + 90};
         for (int what = 0; what <= 5; what++) {
             Due.same(28, "occurrence(0, 0, " + what + ")", x.occurrence(0, 0, what), ordinary[what]);
         }
         Due.same(28, "void in a gap", x.occurrence(0, 1, 3), 2);
         Due.same(28, "no instants in a gap", x.occurrence(0, 1, 4), 0);
-        Due.thrown(28, "no beginning in a gap", ELEMENT, () -> x.occurrence(0, 1, 5));
+        Due.thrown(28, "no beginning in a gap", Due.ELEMENT, () -> x.occurrence(0, 1, 5));
         Due.same(27, "two take place", x.meeting(0, 9), 2);
         x.cancel(0, 1);
         Due.same(28, "void and cancelled", x.occurrence(0, 1, 3), 1);
         x.cancel(0, 0);
-        Due.thrown(28, "no beginning if cancelled", ELEMENT, () -> x.occurrence(0, 0, 5));
+        Due.thrown(28, "no beginning if cancelled", Due.ELEMENT, () -> x.occurrence(0, 0, 5));
         Due.same(28, "its local time stays", x.occurrence(0, 0, 1), ordinary[1]);
         x.shift(0, 1, 30);
         x.cancel(0, 1);
-        Due.same(28, "shifted out of the gap", x.occurrence(0, 1, 5), 1440 * SPRING + 60);
+        Due.same(28, "shifted out of the gap", x.occurrence(0, 1, 5), 1440 * Given.SPRING + 60);
         x.dropRule(0, 0);
-        Due.same(28, "by other rules", x.occurrence(0, 1, 5), 1440 * SPRING + 120);
+        Due.same(28, "by other rules", x.occurrence(0, 1, 5), 1440 * Given.SPRING + 120);
 
         x.addMeeting(0, 0, 0, 60, 0, 1);
         x.shift(1, 0, -1);
@@ -602,11 +569,11 @@ public final class PromiseTest {
         Due.same(28, "the last minute", x.occurrence(2, 0, 3), 0);
         x.shift(2, 0, 1);
         Due.same(28, "behind the calendar", x.occurrence(2, 0, 4), -1);
-        Due.thrown(28, "occurrence(0, 3, 9)", INDEX, () -> x.occurrence(0, 3, 9));
-        Due.thrown(28, "occurrence(0, -1, 0)", INDEX, () -> x.occurrence(0, -1, 0));
-        Due.thrown(28, "occurrence(3, 0, 0)", INDEX, () -> x.occurrence(3, 0, 0));
-        Due.thrown(28, "occurrence(1, 0, 6)", ARGUMENT, () -> x.occurrence(1, 0, 6));
-        Due.thrown(28, "occurrence(1, 0, -1)", ARGUMENT, () -> x.occurrence(1, 0, -1));
+        Due.thrown(28, "occurrence(0, 3, 9)", Due.INDEX, () -> x.occurrence(0, 3, 9));
+        Due.thrown(28, "occurrence(0, -1, 0)", Due.INDEX, () -> x.occurrence(0, -1, 0));
+        Due.thrown(28, "occurrence(3, 0, 0)", Due.INDEX, () -> x.occurrence(3, 0, 0));
+        Due.thrown(28, "occurrence(1, 0, 6)", Due.ARGUMENT, () -> x.occurrence(1, 0, 6));
+        Due.thrown(28, "occurrence(1, 0, -1)", Due.ARGUMENT, () -> x.occurrence(1, 0, -1));
     }
 
     private static void nextClashAgenda() {
@@ -618,10 +585,10 @@ public final class PromiseTest {
         Due.same(29, "next from the least instant on", x.next(0, -2000), 0);
         Due.same(29, "next at its beginning", x.next(0, first), 0);
         Due.same(29, "next behind its beginning", x.next(0, first + 1), 1);
-        Due.thrown(29, "next behind the last", ELEMENT, () -> x.next(0, first + 2881));
-        Due.thrown(29, "next(2, MOST)", INDEX, () -> x.next(2, MOST));
-        Due.thrown(29, "next(0, -2001)", ARGUMENT, () -> x.next(0, -2001));
-        Due.thrown(29, "next(0, 16832720)", ARGUMENT, () -> x.next(0, 16832720));
+        Due.thrown(29, "next behind the last", Due.ELEMENT, () -> x.next(0, first + 2881));
+        Due.thrown(29, "next(2, MOST)", Due.INDEX, () -> x.next(2, MOST));
+        Due.thrown(29, "next(0, -2001)", Due.ARGUMENT, () -> x.next(0, -2001));
+        Due.thrown(29, "next(0, 16832720)", Due.ARGUMENT, () -> x.next(0, 16832720));
 
         Due.same(30, "one ends as the other begins", x.clash(0, 1), -1);
         x.shift(0, 2, 1);
@@ -636,8 +603,8 @@ public final class PromiseTest {
         x.cancel(0, 1);
         Due.same(29, "a cancelled one is passed over", x.next(0, first + 1), 2);
         Due.same(30, "a cancelled one does not clash", x.clash(0, 0), -1);
-        Due.thrown(30, "clash(0, 2)", INDEX, () -> x.clash(0, 2));
-        Due.thrown(30, "clash(-1, 0)", INDEX, () -> x.clash(-1, 0));
+        Due.thrown(30, "clash(0, 2)", Due.INDEX, () -> x.clash(0, 2));
+        Due.thrown(30, "clash(-1, 0)", Due.INDEX, () -> x.clash(-1, 0));
 
         // Begins: meeting 0 at days 10 and 12, 10:00; meeting 1 at days 11, 12, 13, 11:00; then like ones.
         int[] due = {0, 100, 2, 101, 102};
@@ -652,10 +619,10 @@ public final class PromiseTest {
         x.shift(1, 1, -1440);
         Due.same(31, "of like ones the number", x.agenda(first + 1, 0), 100);
         Due.same(31, "then the next number", x.agenda(first + 1, 1), 101);
-        Due.thrown(31, "agenda(0, 5)", ELEMENT, () -> x.agenda(0, 5));
-        Due.thrown(31, "agenda(0, -1)", ELEMENT, () -> x.agenda(0, -1));
-        Due.thrown(31, "agenda(-2001, -1)", ARGUMENT, () -> x.agenda(-2001, -1));
-        Due.thrown(31, "agenda(16832720, 0)", ARGUMENT, () -> x.agenda(16832720, 0));
+        Due.thrown(31, "agenda(0, 5)", Due.ELEMENT, () -> x.agenda(0, 5));
+        Due.thrown(31, "agenda(0, -1)", Due.ELEMENT, () -> x.agenda(0, -1));
+        Due.thrown(31, "agenda(-2001, -1)", Due.ARGUMENT, () -> x.agenda(-2001, -1));
+        Due.thrown(31, "agenda(16832720, 0)", Due.ARGUMENT, () -> x.agenda(16832720, 0));
 
         ZoneCompiler y = new ZoneCompiler();
         y.addZone(0);
@@ -667,10 +634,10 @@ public final class PromiseTest {
     }
 
     private static void driftAndFree() {
-        ZoneCompiler x = europe();
+        ZoneCompiler x = Given.europe();
         x.addZone(0);
         x.addZone(-720);
-        x.addMeeting(0, SPRING - 2, 0, 60, 0, 5);
+        x.addMeeting(0, Given.SPRING - 2, 0, 60, 0, 5);
         Due.same(32, "in its own zone", x.drift(0, 0), 1);
         Due.same(32, "in a zone without savings", x.drift(0, 1), 2);
         x.shift(0, 0, 30);
@@ -683,8 +650,8 @@ public final class PromiseTest {
             x.cancel(1, i);
         }
         Due.same(32, "of none", x.drift(1, 0), 0);
-        Due.thrown(32, "drift(2, 0)", INDEX, () -> x.drift(2, 0));
-        Due.thrown(32, "drift(0, 3)", INDEX, () -> x.drift(0, 3));
+        Due.thrown(32, "drift(2, 0)", Due.INDEX, () -> x.drift(2, 0));
+        Due.thrown(32, "drift(0, 3)", Due.INDEX, () -> x.drift(0, 3));
 
         ZoneCompiler y = new ZoneCompiler();
         y.addZone(0);
@@ -697,15 +664,15 @@ public final class PromiseTest {
         Due.same(33, "in one", y.free(1445, 3000, 30), 1500);
         Due.same(33, "at the end of one", y.free(1500, 1530, 30), 1500);
         Due.same(33, "up to the end", y.free(1411, 1621, 31), 1590);
-        Due.thrown(33, "not up to the end", ELEMENT, () -> y.free(1411, 1620, 31));
-        Due.thrown(33, "backwards", ELEMENT, () -> y.free(100, 99, 1));
-        Due.thrown(33, "no time at all", ELEMENT, () -> y.free(100, 100, 1));
+        Due.thrown(33, "not up to the end", Due.ELEMENT, () -> y.free(1411, 1620, 31));
+        Due.thrown(33, "backwards", Due.ELEMENT, () -> y.free(100, 99, 1));
+        Due.thrown(33, "no time at all", Due.ELEMENT, () -> y.free(100, 100, 1));
         Due.same(33, "a whole day", y.free(0, 9999, 1440), 0);
         Due.same(33, "a whole day behind all", y.free(1, 9999, 1440), 1590);
         Due.same(33, "behind all", y.free(16832718, 16832719, 1), 16832718);
         int[][] wrong = {{-2001, 0, 1}, {0, 16832720, 1}, {16832720, 0, 1}, {0, -2001, 1}, {0, 9, 0}, {0, 9, 1441}};
         for (int[] at : wrong) {
-            Due.thrown(33, "free", ARGUMENT, () -> y.free(at[0], at[1], at[2]));
+            Due.thrown(33, "free", Due.ARGUMENT, () -> y.free(at[0], at[1], at[2]));
         }
         y.cancel(0, 0);
         Due.same(33, "one is cancelled", y.free(1445, 3000, 30), 1445);
@@ -723,7 +690,7 @@ public final class PromiseTest {
         Due.same(34, "they are in this order", x.run(), 1);
         Due.same(34, "the base", x.zone(0, 0), 5);
         for (int no : new int[] {32, 127, -1, 1, 'a' << 24 | 31, 200 << 8, LEAST}) {
-            Due.thrown(34, "append(" + no + ")", ARGUMENT, () -> x.append(no));
+            Due.thrown(34, "append(" + no + ")", Due.ARGUMENT, () -> x.append(no));
         }
         Due.same(34, "nothing of them is there", x.count(5), 0);
         for (int i = 0; i < 14; i++) {
@@ -731,15 +698,15 @@ public final class PromiseTest {
         }
         x.append(0x212121);
         Due.same(34, "characters", x.count(5), 59);
-        Due.thrown(34, "61 characters", STATE, () -> x.append(0x2121));
-        Due.thrown(34, "61 wrong characters", ARGUMENT, () -> x.append(0x2120));
+        Due.thrown(34, "61 characters", Due.STATE, () -> x.append(0x2121));
+        Due.thrown(34, "61 wrong characters", Due.ARGUMENT, () -> x.append(0x2120));
         Due.same(34, "60 characters", x.append(0x21000000), 60);
         Due.same(34, "60 characters and nothing", x.append(0), 60);
     }
 
     private static void run() {
         ZoneCompiler x = new ZoneCompiler();
-        put(x, "zone:-300;zone:-0;base:0,11687,-720;");
+        Given.put(x, "zone:-300;zone:-0;base:0,11687,-720;");
         Due.same(35, "three commands", x.run(), 3);
         Due.same(35, "zones", x.count(0), 2);
         Due.same(35, "a base", x.zone(0, 0), -300);
@@ -752,30 +719,30 @@ public final class PromiseTest {
         int[] numbers = {1, 31, 100, 406, 500, 506, 1010, 1316};
         String clocks = "wbi";
         for (int i = 0; i < dates.length; i++) {
-            put(x, "rule:1,2001,2031,12," + dates[i] + ",1439," + clocks.charAt(i % 3) + ",120;");
+            Given.put(x, "rule:1,2001,2031,12," + dates[i] + ",1439," + clocks.charAt(i % 3) + ",120;");
             Due.same(35, "a rule", x.run(), 1);
             int[] due = {1, 31, 12, numbers[i], 1439, i % 3, 120};
             for (int what = 0; what <= 6; what++) {
                 Due.same(35, "rule(1, " + i + ", " + what + ")", x.rule(1, i, what), due[what]);
             }
         }
-        put(x, "drop:1,0;drop:1,0;");
+        Given.put(x, "drop:1,0;drop:1,0;");
         Due.same(35, "two rules are dropped", x.run(), 2);
         Due.same(35, "what remains", x.rule(1, 0, 3), 100);
         x.addMeeting(1, 0, 0, 1, 0, 3);
-        put(x, "cancel:0,2;cancel:0,1;cancel:0,2;");
+        Given.put(x, "cancel:0,2;cancel:0,1;cancel:0,2;");
         Due.same(35, "two are cancelled, one of them not", x.run(), 3);
         Due.same(35, "that one", x.occurrence(0, 2, 3), 0);
         Due.same(35, "the other", x.occurrence(0, 1, 3), 1);
-        put(x, "zone:0;zone:0;zone:0;zone:0;");
+        Given.put(x, "zone:0;zone:0;zone:0;zone:0;");
         Due.same(35, "up to 6 zones", x.run(), 4);
     }
 
     /** A text that is none, and the index of its first wrong character. */
     private static void wrongText(String text, int position) {
         ZoneCompiler x = new ZoneCompiler();
-        put(x, text);
-        Due.thrown(35, "run of " + text, ARGUMENT, x::run);
+        Given.put(x, text);
+        Due.thrown(35, "run of " + text, Due.ARGUMENT, x::run);
         Due.same(36, "the error position of " + text, x.errorPosition(), position);
         Due.same(35, "nothing is left of " + text, x.count(5), 0);
         Due.same(35, "nothing is done of " + text, x.count(0), 0);
@@ -805,8 +772,8 @@ public final class PromiseTest {
     /** A text behind "zone:0;" whose command can't be carried out. */
     private static void wrongCommand(String command) {
         ZoneCompiler x = new ZoneCompiler();
-        put(x, "zone:0;" + command + "zone:1;");
-        Due.thrown(35, "run of " + command, STATE, x::run);
+        Given.put(x, "zone:0;" + command + "zone:1;");
+        Due.thrown(35, "run of " + command, Due.STATE, x::run);
         Due.same(36, "the error position of " + command, x.errorPosition(), 7);
         Due.same(35, "no zone by " + command, x.count(0), 0);
         Due.same(35, "nothing to undo by " + command, x.count(4), 0);
@@ -825,30 +792,30 @@ public final class PromiseTest {
             wrongCommand(command);
         }
         // All that was there ahead of the run is there behind it, and can be undone.
-        ZoneCompiler x = europe();
+        ZoneCompiler x = Given.europe();
         x.addMeeting(0, 0, 0, 60, 0, 2);
         int changes = x.count(4);
-        put(x, "drop:0,0;cancel:0,1;zone:5;cancel:0,2;");
-        Due.thrown(35, "run", STATE, x::run);
+        Given.put(x, "drop:0,0;cancel:0,1;zone:5;cancel:0,2;");
+        Due.thrown(35, "run", Due.STATE, x::run);
         Due.same(36, "errorPosition()", x.errorPosition(), 27);
         Due.same(35, "the rules", x.zone(0, 1), 2);
         Due.same(35, "the transitions", x.zone(0, 3), 64);
         Due.same(35, "the occurrences", x.meeting(0, 9), 2);
         Due.same(35, "the zones", x.count(0), 1);
         Due.same(35, "the changes", x.count(4), changes);
-        put(x, "zone:0;");
+        Given.put(x, "zone:0;");
         x.run();
         Due.same(36, "errorPosition() behind a text without error", x.errorPosition(), -1);
-        put(x, "?");
-        Due.thrown(35, "run", ARGUMENT, x::run);
+        Given.put(x, "?");
+        Due.thrown(35, "run", Due.ARGUMENT, x::run);
         x.undo();
         Due.same(36, "errorPosition() does not go back", x.errorPosition(), 0);
         // The eighth change can still be undone behind a run that failed.
         for (int i = 0; i < 8; i++) {
             x.cancel(0, 0);
         }
-        put(x, "drop:0,0;drop:0,9;");
-        Due.thrown(35, "run", STATE, x::run);
+        Given.put(x, "drop:0,0;drop:0,9;");
+        Due.thrown(35, "run", Due.STATE, x::run);
         Due.same(39, "8 changes can be undone", x.count(4), 8);
         for (int i = 7; i >= 0; i--) {
             Due.same(39, "undo()", x.undo(), i);
@@ -869,26 +836,26 @@ public final class PromiseTest {
             x.addRule(0, rules[i][0], rules[i][1], dates[i], rules[i][2], rules[i][3]);
             int length = x.write(0, i);
             Due.same(37, "write(0, " + i + ")", length, due[i].length());
-            String got = written(x, length);
+            String got = Given.written(x, length);
             if (!got.equals(due[i])) {
                 Due.fault(37, "rule " + i + " is written as " + got + ", due is " + due[i]);
             }
         }
         int length = due[7].length();
         Due.same(38, "character(0)", x.character(0), '2');
-        Due.thrown(38, "character(length)", INDEX, () -> x.character(length));
-        Due.thrown(38, "character(-1)", INDEX, () -> x.character(-1));
-        Due.thrown(37, "write(0, 8)", INDEX, () -> x.write(0, 8));
-        Due.thrown(37, "write(1, 0)", INDEX, () -> x.write(1, 0));
+        Due.thrown(38, "character(length)", Due.INDEX, () -> x.character(length));
+        Due.thrown(38, "character(-1)", Due.INDEX, () -> x.character(-1));
+        Due.thrown(37, "write(0, 8)", Due.INDEX, () -> x.write(0, 8));
+        Due.thrown(37, "write(1, 0)", Due.INDEX, () -> x.write(1, 0));
         Due.same(38, "what was written stays", x.character(length - 1), '9');
         x.undo();
         Due.same(38, "it does not go back either", x.character(length - 1), '9');
         x.write(0, 1);
-        Due.thrown(38, "a shorter text takes its place", INDEX, () -> x.character(length - 1));
+        Due.thrown(38, "a shorter text takes its place", Due.INDEX, () -> x.character(length - 1));
     }
 
     private static void undo() {
-        ZoneCompiler x = europe();
+        ZoneCompiler x = Given.europe();
         Due.same(39, "three changes", x.count(4), 3);
         x.changeBase(0, 100, 0);
         x.addMeeting(0, 0, 0, 60, 0, 3);
@@ -898,7 +865,7 @@ public final class PromiseTest {
         Due.same(39, "eight changes", x.count(4), 8);
         x.dropRule(0, 1);
         Due.same(39, "still eight", x.count(4), 8);
-        Due.thrown(39, "what throws is no change", INDEX, () -> x.dropRule(0, 1));
+        Due.thrown(39, "what throws is no change", Due.INDEX, () -> x.dropRule(0, 1));
         Due.same(39, "undo dropRule", x.undo(), 7);
         Due.same(39, "the rules", x.zone(0, 1), 2);
         Due.same(39, "undo shift", x.undo(), 6);
@@ -915,21 +882,21 @@ public final class PromiseTest {
         Due.same(39, "undo addRule", x.undo(), 1);
         Due.same(39, "the transitions", x.zone(0, 3), 1);
         Due.same(39, "undo addRule", x.undo(), 0);
-        Due.thrown(39, "undo addZone: too long ago", STATE, x::undo);
-        put(x, "zone:1;zone:2;");
+        Due.thrown(39, "undo addZone: too long ago", Due.STATE, x::undo);
+        Given.put(x, "zone:1;zone:2;");
         x.run();
         Due.same(39, "undo run", x.undo(), 0);
         Due.same(39, "both its zones are gone", x.count(0), 1);
         x.shift(x.addMeeting(0, 0, 0, 1, 0, 1), 0, 0);
         Due.same(39, "a shift by which nothing changes", x.undo(), 1);
-        put(x, "zo");
+        Given.put(x, "zo");
         x.undo();
         Due.same(39, "the buffer does not go back", x.count(5), 2);
     }
 
     private static void save() {
-        ZoneCompiler x = europe();
-        Due.thrown(41, "restore()", STATE, x::restore);
+        ZoneCompiler x = Given.europe();
+        Due.thrown(41, "restore()", Due.STATE, x::restore);
         Due.same(40, "save()", x.save(), 1);
         Due.same(40, "save is no change", x.count(4), 3);
         x.addZone(0);
@@ -937,7 +904,7 @@ public final class PromiseTest {
         x.addMeeting(1, 0, 0, 1, 0, 1);
         Due.same(41, "restore()", x.restore(), 1);
         Due.same(41, "nothing can be undone", x.count(4), 0);
-        Due.thrown(41, "undo()", STATE, x::undo);
+        Due.thrown(41, "undo()", Due.STATE, x::undo);
         Due.same(41, "the transitions", x.zone(0, 3), 64);
         Due.same(41, "the meetings", x.count(1), 0);
         x.addZone(5);
@@ -957,9 +924,9 @@ public final class PromiseTest {
     }
 
     private static void count() {
-        ZoneCompiler x = europe();
+        ZoneCompiler x = Given.europe();
         x.addZone(0);
-        x.addMeeting(0, SPRING, 150, 60, 3, 3);
+        x.addMeeting(0, Given.SPRING, 150, 60, 3, 3);
         x.addMeeting(1, 11687, 0, 60, 0, 40);
         x.addMeeting(1, 0, 0, 60, 0, 40);
         x.cancel(2, 39);
@@ -968,7 +935,7 @@ public final class PromiseTest {
         for (int what = 0; what <= 5; what++) {
             Due.same(42, "count(" + what + ")", x.count(what), due[what]);
         }
-        Due.thrown(42, "count(6)", ARGUMENT, () -> x.count(6));
-        Due.thrown(42, "count(-1)", ARGUMENT, () -> x.count(-1));
+        Due.thrown(42, "count(6)", Due.ARGUMENT, () -> x.count(6));
+        Due.thrown(42, "count(-1)", Due.ARGUMENT, () -> x.count(-1));
     }
 }
