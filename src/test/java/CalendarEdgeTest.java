@@ -81,7 +81,8 @@ public final class CalendarEdgeTest {
                 int at = month;
                 int most = LENGTHS[month - 1] + (month == 2 && year == 0 ? 1 : 0);
                 int length = year;
-                Due.range("day(" + year + ", " + month + ", day)", Due.ARGUMENT, 1, most, day -> x.day(length, at, day));
+                Due.range("day(" + year + ", " + month + ", day)", Due.ARGUMENT, 1, most, day -> x.day(length, at,
+                        day));
             }
         }
     }
@@ -95,6 +96,9 @@ public final class CalendarEdgeTest {
             Due.thrown("day(" + year + ", 2, 29)", leap ? null : Due.ARGUMENT, () -> x.day(at, 2, 29));
             int last = x.day(at, 12, 31);
             Due.same("the last day of the year " + year, x.date(last, 4), leap ? 366 : 365);
+            int march = x.day(at, 3, 1);
+            Due.row("March 1 of the year " + year, what -> x.date(march, what), year, 3, 1);
+            Due.row("the day ahead of it", what -> x.date(march - 1, what), year, 2, leap ? 29 : 28);
         }
     }
 

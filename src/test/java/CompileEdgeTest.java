@@ -32,13 +32,16 @@ public final class CompileEdgeTest {
         whats();
         earliestAndLatest();
         secondWayByYears();
+        eachEventOnce();
+        compiledAnew();
         offsetsOfNoZone();
         Due.end();
     }
 
     private static void eventsOfRules() {
         Due.sentence(COMPILING, "one for each of their years in which there is one");
-        int[][] due = {{0, 1, 31, 1}, {31, 1, 31, 32}, {3131, 12, 31, 1}, {31, 2, 29, 8}, {103, 2, 29, 0}, {104, 2, 29, 1},
+        int[][] due = {{0, 1, 31, 1}, {31, 1, 31, 32}, {3131, 12, 31, 1}, {31, 2, 29, 8}, {103, 2, 29, 0}, {104, 2, 29,
+                1},
             {408, 2, 29, 2}, {31, 2, 30, 0}, {31, 4, 31, 0}};
         for (int[] at : due) {
             ZoneCompiler x = Given.zone(0);
@@ -260,7 +263,8 @@ public final class CompileEdgeTest {
     }
 
     private static void mostEvents() {
-        Due.sentence(COMPILING, "The events of a zone are those of its rules .. and its changes: as many as there can be");
+        Due.sentence(COMPILING,
+                "The events of a zone are those of its rules .. and its changes: as many as there can be");
         ZoneCompiler x = Given.zone(0);
         for (int i = 0; i < 8; i++) {
             x.addRule(0, 31, i + 1, 1, 2, i % 2 == 0 ? 60 : 0);
@@ -346,6 +350,33 @@ public final class CompileEdgeTest {
         // The change at New Year 2001 is void: by the wall it comes ahead of the rule of December 31, 2000.
         Due.same("the transitions", x.zone(0, 3), 66);
         Due.same("the void events", x.zone(0, 4), 1);
+    }
+
+    private static void eachEventOnce() {
+        Due.sentence("Promise 14", "event by event .., year by year, without the transitions");
+        Due.same("ahead of any other call", Given.zone(60).offsetAgain(0, 0), 60);
+        // The first change changes nothing; taken once more behind the second one, it would.
+        ZoneCompiler x = Given.zone(840);
+        x.changeBase(0, 366, 840);
+        x.changeBase(0, 366, -720);
+        Due.same("changes at New Year", x.offsetAgain(0, 16832719), -720);
+        Due.same("by the transitions", x.offset(0, 16832719), -720);
+        Due.same("ahead of them", x.offsetAgain(0, 1440 * 366 - 841), 840);
+    }
+
+    private static void compiledAnew() {
+        Due.sentence(COMPILING,
+                "The events of a zone are those of its rules .. and its changes: of those that it has now");
+        ZoneCompiler x = twoEvents(660);
+        Due.row("zone(0, what)", what -> x.zone(0, what), 0, 2, 0, 1, 1, 2, 60, 60, 0);
+        x.addRule(0, 0, 1, 10, 6590, 5);
+        Due.row("with a rule more", what -> x.zone(0, what), 0, 3, 0, 1, 2, 3, 60, 60, 0);
+        x.changeBase(0, 20, -90);
+        Due.row("with a change more", what -> x.zone(0, what), 0, 3, 1, 2, 2, 4, -30, 60, -30);
+        x.dropRule(0, 0);
+        Due.row("with a rule less", what -> x.zone(0, what), 0, 2, 1, 2, 1, 3, -85, 5, -85);
+        x.undo();
+        Due.row("with it again", what -> x.zone(0, what), 0, 3, 1, 2, 2, 4, -30, 60, -30);
     }
 
     private static void offsetsOfNoZone() {

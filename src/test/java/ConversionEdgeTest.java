@@ -17,6 +17,7 @@ public final class ConversionEdgeTest {
         moreThanTwoInstants();
         firstTransitionOfAGap();
         transitionOfAGap();
+        anotherTransitionNearby();
         transitionOfAFold();
         firstTransitionOfAFold();
         inNone();
@@ -120,6 +121,20 @@ public final class ConversionEdgeTest {
         }
     }
 
+    private static void anotherTransitionNearby() {
+        Due.sentence(FOLDS, "The transition of a gap: not another one shortly ahead of it or behind it");
+        ZoneCompiler x = Given.zone(0);
+        Given.january(x, 19, 1410, 10);
+        Given.january(x, 20, 0, 60);
+        Given.january(x, 20, 30, 100);
+        int[][] due = {{GAP - 30, 0}, {GAP - 21, 0}, {GAP - 20, -1}, {GAP + 9, -1}, {GAP + 10, 1}, {GAP + 59, 1},
+            {GAP + 60, -1}, {GAP + 89, -1}, {GAP + 90, 2}, {GAP + 129, 2}, {GAP + 130, -1}};
+        for (int[] at : due) {
+            Due.same("cause(0, " + at[0] + ")", x.cause(0, at[0]), at[1]);
+        }
+        Due.row("toInstant in the gap between", mode -> x.toInstant(0, GAP + 20, mode), GAP + 10, GAP - 40, GAP);
+    }
+
     private static void transitionOfAFold() {
         Due.sentence(FOLDS, "whose instant is greater than the first instant .. and not greater than its last one");
         ZoneCompiler x = zone();
@@ -190,7 +205,8 @@ public final class ConversionEdgeTest {
                 FOLD + 59);
         Due.outside("of three", Due.UNSUPPORTED, local -> threeTimes().toInstant(0, local, 3), 1440 * 20 + 300);
         Due.inside("toInstant(0, local, 3)", local -> x.toInstant(0, local, 3), GAP - 1, GAP + 60, FOLD - 1, FOLD + 60);
-        Due.inside("convert(0, local, 0, 3)", local -> x.convert(0, local, 0, 3), GAP - 1, GAP + 60, FOLD - 1, FOLD + 60);
+        Due.inside("convert(0, local, 0, 3)", local -> x.convert(0, local, 0, 3), GAP - 1, GAP + 60, FOLD - 1,
+                FOLD + 60);
     }
 
     private static void outsideAllModesAreAlike() {
@@ -199,7 +215,8 @@ public final class ConversionEdgeTest {
         int[][] due = {{0, 0}, {GAP - 1, GAP - 1}, {GAP + 60, GAP}, {FOLD - 1, FOLD - 61}, {FOLD + 60, FOLD + 60},
             {LAST, LAST}};
         for (int[] at : due) {
-            Due.row("toInstant(0, " + at[0] + ", mode)", mode -> x.toInstant(0, at[0], mode), at[1], at[1], at[1], at[1]);
+            Due.row("toInstant(0, " + at[0] + ", mode)", mode -> x.toInstant(0, at[0], mode), at[1], at[1], at[1],
+                    at[1]);
         }
     }
 
@@ -212,7 +229,8 @@ public final class ConversionEdgeTest {
     }
 
     private static void theEndsOfTheCalendar() {
-        Due.sentence(FOLDS, "A local time has all those instants whose local time it is: also below 0 and behind the end");
+        Due.sentence(FOLDS,
+                "A local time has all those instants whose local time it is: also below 0 and behind the end");
         ZoneCompiler first = Given.zone(840);
         Due.same("the first local time", first.toInstant(0, 0, 3), -840);
         first.addRule(0, 0, 1, 1, 0, 120);
@@ -225,7 +243,8 @@ public final class ConversionEdgeTest {
         last.addRule(0, 3131, 12, 31, 14390, 60);
         many(last, LAST - 1, 1);
         many(last, LAST, 0);
-        Due.row("a gap at the last local time", mode -> last.toInstant(0, LAST, mode), LAST + 720, LAST + 660, LAST + 720);
+        Due.row("a gap at the last local time", mode -> last.toInstant(0, LAST, mode), LAST + 720, LAST + 660,
+                LAST + 720);
         ZoneCompiler fold = Given.zone(0);
         fold.addRule(0, 3131, 12, 1, 2, 60);
         fold.addRule(0, 3131, 12, 31, 14382, 0);
@@ -334,6 +353,15 @@ public final class ConversionEdgeTest {
         Due.same("a gap of which half lies ahead of the calendar", first.account(0, 0, 1), 30);
         Due.same("gaps of which one is filled in part", gapOfTwo().account(0, 0, 1), 70);
         Due.same("none", Given.zone(0).account(0, 0, 1), 0);
+        ZoneCompiler late = Given.zone(60);
+        late.changeBase(0, 10, 0);
+        Given.january(late, 20, 0, 30);
+        Due.same("a gap behind a fold", late.account(0, 0, 1), 30);
+        ZoneCompiler behind = Given.zone(-300);
+        behind.addRule(0, 0, 12, 31, 14100, 60);
+        behind.addRule(0, 0, 12, 1, 0, 15);
+        Due.same("gaps of a zone whose offset is below 0", behind.account(0, 0, 1), 15 + 30);
+        Due.same("the rest of them in the next year", behind.account(0, 1, 1), 15);
     }
 
     private static void accountOfFolds() {

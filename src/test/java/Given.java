@@ -29,6 +29,24 @@ final class Given {
         return x;
     }
 
+    /** As many zones and meetings as there can be, and in the last zone as many rules and changes. */
+    static ZoneCompiler full() {
+        ZoneCompiler x = new ZoneCompiler();
+        for (int i = 0; i < 6; i++) {
+            x.addZone(i);
+        }
+        for (int i = 0; i < 8; i++) {
+            x.addRule(5, 0, 1, 2 + i, 2, i);
+        }
+        for (int i = 0; i < 4; i++) {
+            x.changeBase(5, 20 + i, i);
+        }
+        for (int i = 0; i < 10; i++) {
+            x.addMeeting(5, 40, i, 1, 0, 1);
+        }
+        return x;
+    }
+
     /** A rule of 2000 alone, on a day of January, by the clock of the instants. */
     static void january(ZoneCompiler x, int day, int minute, int saving) {
         x.addRule(0, 0, 1, day, 10 * minute + 2, saving);

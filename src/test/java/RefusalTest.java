@@ -57,20 +57,10 @@ public final class RefusalTest {
 
     /** As many of all as there can be; the buffer is full of a text that is none. */
     private static ZoneCompiler full() {
-        ZoneCompiler x = Given.zone(0);
+        ZoneCompiler x = Given.full();
         x.save();
-        for (int i = 1; i < 6; i++) {
-            x.addZone(i);
-        }
-        for (int i = 0; i < 8; i++) {
-            Given.january(x, 2 + i, 0, i + 1);
-        }
-        for (int i = 0; i < 4; i++) {
-            x.changeBase(0, 20 + i, i + 1);
-        }
-        for (int i = 0; i < 10; i++) {
-            x.addMeeting(0, 40, 0, 1, 0, 1);
-        }
+        x.shift(9, 0, 1);
+        x.write(5, 7);
         for (int i = 0; i < 15; i++) {
             x.append(0x21212121);
         }
@@ -238,23 +228,24 @@ public final class RefusalTest {
     private static void ofAFullObject() {
         refused("addZone(0)", Due.STATE, x -> x.addZone(0));
         refused("addZone(841)", Due.ARGUMENT, x -> x.addZone(841));
-        refused("changeBase(0, 0, 0)", Due.STATE, x -> x.changeBase(0, 0, 0));
-        refused("changeBase(0, 0, 841)", Due.ARGUMENT, x -> x.changeBase(0, 0, 841));
-        refused("changeBase(0, -1, 0)", Due.ARGUMENT, x -> x.changeBase(0, -1, 0));
+        refused("changeBase(5, 0, 0)", Due.STATE, x -> x.changeBase(5, 0, 0));
+        refused("changeBase(5, 0, 841)", Due.ARGUMENT, x -> x.changeBase(5, 0, 841));
+        refused("changeBase(5, -1, 0)", Due.ARGUMENT, x -> x.changeBase(5, -1, 0));
         refused("changeBase(6, 0, 0)", Due.INDEX, x -> x.changeBase(6, 0, 0));
-        refused("addRule(0, 31, 1, 1, 0, 0)", Due.STATE, x -> x.addRule(0, 31, 1, 1, 0, 0));
-        refused("addRule(0, 31, 1, 1, 0, 121)", Due.ARGUMENT, x -> x.addRule(0, 31, 1, 1, 0, 121));
+        refused("addRule(5, 31, 1, 1, 0, 0)", Due.STATE, x -> x.addRule(5, 31, 1, 1, 0, 0));
+        refused("addRule(5, 31, 1, 1, 0, 121)", Due.ARGUMENT, x -> x.addRule(5, 31, 1, 1, 0, 121));
         refused("addRule(6, 31, 1, 1, 0, 0)", Due.INDEX, x -> x.addRule(6, 31, 1, 1, 0, 0));
-        refused("addMeeting(0, 0, 0, 1, 0, 1)", Due.STATE, x -> x.addMeeting(0, 0, 0, 1, 0, 1));
-        refused("addMeeting(0, 0, 0, 0, 0, 1)", Due.ARGUMENT, x -> x.addMeeting(0, 0, 0, 0, 0, 1));
-        refused("addMeeting(0, 0, 0, 1, 0, 41)", Due.ARGUMENT, x -> x.addMeeting(0, 0, 0, 1, 0, 41));
+        refused("addMeeting(5, 0, 0, 1, 0, 1)", Due.STATE, x -> x.addMeeting(5, 0, 0, 1, 0, 1));
+        refused("addMeeting(5, 0, 0, 0, 0, 1)", Due.ARGUMENT, x -> x.addMeeting(5, 0, 0, 0, 0, 1));
+        refused("addMeeting(5, 0, 0, 1, 0, 41)", Due.ARGUMENT, x -> x.addMeeting(5, 0, 0, 1, 0, 41));
         refused("addMeeting(6, 0, 0, 1, 0, 1)", Due.INDEX, x -> x.addMeeting(6, 0, 0, 1, 0, 1));
         refused("append of one more", Due.STATE, x -> x.append('!'));
         refused("append of a blank more", Due.ARGUMENT, x -> x.append(0x21212120));
     }
 
     private static void runThatThrows() {
-        Due.sentence("Promise 35", "The buffer is empty afterwards, also if an exception is thrown: nothing else changes");
+        Due.sentence("Promise 35",
+                "The buffer is empty afterwards, also if an exception is thrown: nothing else changes");
         String[] texts = {"", "zone", "zone:1;zone:2", "zone:1;cancel:0,0;drop:0,0;drop:0,1;", "zone:841;"};
         int[] positions = {0, 4, 13, 27, 0};
         Class<?>[] wants = {Due.ARGUMENT, Due.ARGUMENT, Due.ARGUMENT, Due.STATE, Due.STATE};

@@ -159,7 +159,8 @@ public final class SearchEdgeTest {
     }
 
     private static void clashOfAMeetingWithItself() {
-        Due.sentence("Promise 30", "If both meetings are the same, the first one has a lower number than the other one");
+        Due.sentence("Promise 30",
+                "If both meetings are the same, the first one has a lower number than the other one");
         Due.same("one occurrence", meeting(5, 0, 1440, 1).clash(0, 0), -1);
         ZoneCompiler x = meeting(5, 0, 1440, 3);
         Due.same("one ends as the next begins", x.clash(0, 0), -1);
@@ -245,7 +246,8 @@ public final class SearchEdgeTest {
     private static void agendaEntriesThatAreNot() {
         Due.sentence("Promise 31", "the index, from 0; Throws NoSuchElementException if there is no such entry");
         Due.range("agenda(0, index)", Due.ELEMENT, 0, 2, index -> meeting(5, 0, 60, 3).agenda(0, index));
-        Due.range("agenda(FIFTH + 1, index)", Due.ELEMENT, 0, 1, index -> meeting(5, 0, 60, 3).agenda(FIFTH + 1, index));
+        Due.range("agenda(FIFTH + 1, index)", Due.ELEMENT, 0, 1, index -> meeting(5, 0, 60, 3).agenda(FIFTH + 1,
+                index));
         Due.thrown("without meetings", Due.ELEMENT, () -> Given.zone(0).agenda(0, 0));
     }
 
@@ -322,7 +324,8 @@ public final class SearchEdgeTest {
     }
 
     private static void freeOfNoInstant() {
-        Due.sentence("Promise 33", "Throws IllegalArgumentException if there is no such instant, or minutes is out of range");
+        Due.sentence("Promise 33",
+                "Throws IllegalArgumentException if there is no such instant, or minutes is out of range");
         Due.inside("free(from, 16832719, 1)", from -> Given.zone(0).free(from, MOST, 1), LEAST, MOST - 1);
         Due.outside("free(from, 16832719, 1)", Due.ARGUMENT, from -> Given.zone(0).free(from, MOST, 1), LEAST - 1,
                 MOST + 1, Integer.MIN_VALUE, Integer.MAX_VALUE);
@@ -353,7 +356,8 @@ public final class SearchEdgeTest {
     }
 
     private static void freeInTime() {
-        Due.sentence("Promise 33", "the instant at which these minutes have to be over; NoSuchElementException if .. none");
+        Due.sentence("Promise 33",
+                "the instant at which these minutes have to be over; NoSuchElementException if .. none");
         ZoneCompiler x = meeting(5, 0, 60, 1);
         Due.same("over in time", x.free(FIFTH, FIFTH + 90, 30), FIFTH + 60);
         Due.thrown("a minute late", Due.ELEMENT, () -> x.free(FIFTH, FIFTH + 89, 30));
@@ -385,6 +389,12 @@ public final class SearchEdgeTest {
         Due.same("one goes on behind all", x.free(FIFTH, MOST, 1), FIFTH + 1439);
         x.addMeeting(0, 5, 1439, 1, 0, 1);
         Due.same("one begins as it ends", x.free(FIFTH, MOST, 1), FIFTH + 1440);
+        ZoneCompiler many = meeting(5, 0, 60, 40);
+        many.addMeeting(0, 5, 0, 7, 0, 40);
+        int last = FIFTH + 1440 * 39;
+        Due.same("the last one of a meeting", many.free(last, MOST, 1), last + 60);
+        many.cancel(0, 39);
+        Due.same("the last one of another meeting", many.free(last, MOST, 1), last + 7);
     }
 
     private static void freeOfThoseThatTakePlace() {

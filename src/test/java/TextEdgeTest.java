@@ -7,8 +7,9 @@ public final class TextEdgeTest {
     private static final String TEXTS = "Texts";
     private static final String NUMBER = "(?:0|[1-9][0-9]{0,4})";
     private static final String DATE = "(?:" + NUMBER + "|[1-4]x[0-6]|l[0-6]|[0-6]>(?:0|[1-9][0-9]?))";
-    private static final String COMMAND = ("(?:zone:-?N;|base:N,N,-?N;|rule:N,N,N,N,D,N,[wbi],N;|drop:N,N;|cancel:N,N;)")
-            .replace("N", NUMBER).replace("D", DATE);
+    private static final String COMMAND =
+            "(?:zone:-?N;|base:N,N,-?N;|rule:N,N,N,N,D,N,[wbi],N;|drop:N,N;|cancel:N,N;)"
+                    .replace("N", NUMBER).replace("D", DATE);
     private static final Pattern TEXT = Pattern.compile(COMMAND + "+");
     private static final Pattern WORDS = Pattern.compile("(?:^|;)([a-z]*)");
     private static final Pattern WORD = Pattern.compile("zone|base|rule|drop|cancel");
@@ -84,7 +85,8 @@ public final class TextEdgeTest {
         Due.same("none more", x.append(0), 60);
         Due.thrown("a byte that is none comes first", Due.ARGUMENT, () -> x.append(32));
         ZoneCompiler y = Given.zone(0);
-        Due.same("a text of 60 characters", Given.ran(y, "base:0,11111,100;base:0,1111,500;base:0,1,500;zone:0;zone:0;"), 5);
+        Due.same("a text of 60 characters", Given.ran(y,
+                "base:0,11111,100;base:0,1111,500;base:0,1,500;zone:0;zone:0;"), 5);
     }
 
     private static void fourBytes() {
@@ -109,7 +111,8 @@ public final class TextEdgeTest {
         for (int place = 0; place <= 24; place += 8) {
             int at = place;
             Due.inside("append at " + place, letter -> new ZoneCompiler().append(letter << at), 0, 33, 126);
-            Due.outside("append at " + place, Due.ARGUMENT, letter -> new ZoneCompiler().append(letter << at), 1, 32, 127,
+            Due.outside("append at " + place, Due.ARGUMENT, letter -> new ZoneCompiler().append(letter << at), 1, 32,
+                    127,
                     128, 161, 255);
         }
         ZoneCompiler x = new ZoneCompiler();
@@ -139,7 +142,8 @@ public final class TextEdgeTest {
         for (int i = 0; i < 8; i++) {
             Given.january(x, 1 + i, 0, i);
         }
-        Due.same("as long as there can be", Given.ran(x, "drop:0,0;drop:0,0;drop:0,0;drop:0,0;drop:0,0;zone:0;zone:0;"), 7);
+        Due.same("as long as there can be", Given.ran(x,
+                "drop:0,0;drop:0,0;drop:0,0;drop:0,0;drop:0,0;zone:0;zone:0;"), 7);
         Due.same("the rules", x.zone(0, 1), 3);
     }
 
@@ -298,7 +302,8 @@ public final class TextEdgeTest {
     }
 
     private static void datesThatAreNumbers() {
-        Due.sentence("In doubt", "a date that is a number is a day of the month, so that 32 and more, as 0, .. are no dates");
+        Due.sentence("In doubt",
+                "a date that is a number is a day of the month, so that 32 and more, as 0, .. are no dates");
         date("1", 1);
         date("31", 31);
         noDate("0", "32", "99", "100", "106", "506", "1010", "1316", "99999");
@@ -317,6 +322,8 @@ public final class TextEdgeTest {
         wrong("rule:0,2000,2000,1,1x00", 22);
         wrong("rule:0,2000,2000,1,11x", 21);
         wrong("rule:0,2000,2000,1,x", 19);
+        wrong("rule:0,2000,2000,1,/x1", 19);
+        wrong("rule:0,2000,2000,1,ax1", 19);
         wrong("rule:0,2000,2000,1,1X", 20);
     }
 
@@ -341,6 +348,9 @@ public final class TextEdgeTest {
         wrong("rule:0,2000,2000,1,7>", 20);
         wrong("rule:0,2000,2000,1,10>", 21);
         wrong("rule:0,2000,2000,1,>", 19);
+        wrong("rule:0,2000,2000,1,/>1", 19);
+        wrong("rule:0,2000,2000,1,->1", 19);
+        wrong("rule:0,2000,2000,1,w>1", 19);
         wrong("rule:0,2000,2000,1,6>,", 21);
         wrong("rule:0,2000,2000,1,6>-", 21);
         wrong("rule:0,2000,2000,1,6>310", 23);
@@ -371,7 +381,8 @@ public final class TextEdgeTest {
         Due.same("the month", x.rule(0, 0, 2), 12);
         Due.same("the saving", x.rule(0, 0, 6), 120);
         Due.same("the base", x.zone(1, 0), 840);
-        String[] texts = {"zone:841;", "zone:-721;", "base:1,0,0;", "base:0,11688,0;", "base:0,0,841;", "base:0,0,-721;",
+        String[] texts = {"zone:841;", "zone:-721;", "base:1,0,0;", "base:0,11688,0;", "base:0,0,841;",
+                "base:0,0,-721;",
             "rule:1,2000,2000,1,1,0,w,0;", "rule:0,2000,2000,0,1,0,w,0;", "rule:0,2000,2000,13,1,0,w,0;",
             "rule:0,2000,2000,1,1,1440,w,0;", "rule:0,2000,2000,1,1,0,w,121;", "drop:0,0;", "drop:1,0;", "cancel:1,0;",
             "cancel:0,2;"};
@@ -402,9 +413,12 @@ public final class TextEdgeTest {
     }
 
     private static void wordsThatAreNone() {
-        Due.sentence(TEXTS, "for a word that is none of these, .. that of its first letter, also if the text ends behind it");
-        for (String word : new String[] {"z", "zon", "zonee", "zzone", "zones", "bas", "basf", "rul", "rules", "dro", "drops",
-            "cance", "cancels", "cancell", "zonebase", "x", "az"}) {
+        Due.sentence(TEXTS,
+                "for a word that is none of these, .. that of its first letter, also if the text ends behind it");
+        for (String word : new String[] {"z", "zon", "zonee", "zzone", "zones", "bas", "basf", "rul", "rules", "dro",
+                "drops",
+            "cance", "cancels", "cancell", "zonebase", "x", "az", "aone", "vase", "mule", "crop",
+            "rancel", "zonf", "zane", "canoel"}) {
             wrong(word, 0);
             wrong(word + ":", 0);
             wrong(word + "?", 0);
@@ -517,7 +531,8 @@ public final class TextEdgeTest {
         Object[][] due = {{31, 3, 506, 1200, 60, "2000,2031,3,l6,120,w,60"}, {0, 1, 1, 1, 0, "2000,2000,1,1,0,b,0"},
             {3131, 12, 31, 14392, 120, "2031,2031,12,31,1439,i,120"}, {910, 10, 100, 90, 9, "2009,2010,10,1x0,9,w,9"},
             {1011, 9, 406, 100, 10, "2010,2011,9,4x6,10,w,10"}, {31, 1, 500, 990, 99, "2000,2031,1,l0,99,w,99"},
-            {31, 1, 1010, 1000, 100, "2000,2031,1,0>1,100,w,100"}, {31, 1, 1096, 9990, 119, "2000,2031,1,6>9,999,w,119"},
+            {31, 1, 1010, 1000, 100, "2000,2031,1,0>1,100,w,100"}, {31, 1, 1096, 9990, 119,
+            "2000,2031,1,6>9,999,w,119"},
             {31, 1, 1100, 10000, 1, "2000,2031,1,0>10,1000,w,1"}, {31, 1, 1316, 10, 20, "2000,2031,1,6>31,1,w,20"}};
         for (Object[] at : due) {
             ZoneCompiler x = Given.zone(0);

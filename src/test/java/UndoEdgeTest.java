@@ -29,6 +29,10 @@ public final class UndoEdgeTest {
         nothingCanBeUndone();
         nothingWasSaved();
         restoreLeavesTheRest();
+        zonesInThePlaceOfOthers();
+        meetingsInThePlaceOfOthers();
+        toldAheadOfIt();
+        ofAllThereCanBe();
         counts();
         Due.end();
     }
@@ -362,6 +366,120 @@ public final class UndoEdgeTest {
         Due.same("the buffer", x.count(5), 7);
         Due.alike("the written text", Given.written(x, length), "2000,2000,1,10,0,i,30");
         Due.same("the text in the buffer", x.run(), 1);
+    }
+
+    private static void zonesInThePlaceOfOthers() {
+        Due.sentence("Promises 39 to 41", "Undoes .. Saves .. Restores: also a zone in whose place another one came");
+        ZoneCompiler x = Given.zone(60);
+        Given.january(x, 10, 0, 30);
+        x.changeBase(0, 20, 90);
+        x.save();
+        String before = Told.book(x);
+        for (int i = 0; i < 3; i++) {
+            x.undo();
+        }
+        x.addZone(-5);
+        Due.row("zone(0, what) of a new zone", what -> x.zone(0, what), -5, 0, 0, 0, 0, 0, -5, -5, -5);
+        Given.january(x, 11, 1, 40);
+        x.changeBase(0, 21, 91);
+        x.restore();
+        Due.alike("what there is", Told.book(x), before);
+        ZoneCompiler y = new ZoneCompiler();
+        y.save();
+        Given.ran(y, "zone:60;rule:0,2000,2031,1,1,0,w,60;base:0,5,0;");
+        Due.row("zone(0, what)", what -> y.zone(0, what), 60, 1, 1);
+        y.undo();
+        y.addZone(7);
+        Due.row("zone(0, what) behind undo", what -> y.zone(0, what), 7, 0, 0, 0, 0, 0, 7, 7, 7);
+        Given.january(y, 1, 0, 9);
+        y.changeBase(0, 9, 9);
+        y.restore();
+        y.addZone(8);
+        Due.row("zone(0, what) behind restore", what -> y.zone(0, what), 8, 0, 0, 0, 0, 0, 8, 8, 8);
+    }
+
+    private static void meetingsInThePlaceOfOthers() {
+        Due.sentence("Promises 39 to 41",
+                "Undoes .. Saves .. Restores: also a meeting in whose place another one came");
+        ZoneCompiler x = Given.zone(60);
+        x.addZone(30);
+        x.addMeeting(0, 5, 600, 60, 0, 3);
+        x.recur(0, 1, 2, 5);
+        x.cancel(0, 1);
+        x.shift(0, 2, 9);
+        x.save();
+        String before = Told.book(x);
+        for (int i = 0; i < 4; i++) {
+            x.undo();
+        }
+        Due.thrown("meeting(0, 0)", Due.INDEX, () -> x.meeting(0, 0));
+        Due.thrown("cancel(0, 0)", Due.INDEX, () -> x.cancel(0, 0));
+        Due.thrown("shift(0, 0, 0)", Due.INDEX, () -> x.shift(0, 0, 0));
+        Due.thrown("occurrence(0, 0, 0)", Due.INDEX, () -> x.occurrence(0, 0, 0));
+        x.addMeeting(1, 6, 601, 61, 1, 4);
+        Due.row("a new meeting", what -> x.meeting(0, what), 1, 6, 601, 61, 1, 0, 1, 0, 4, 4);
+        x.recur(0, 2, 7, 0);
+        x.cancel(0, 2);
+        x.restore();
+        Due.alike("what there is", Told.book(x), before);
+        x.recur(0, 0, 60, 0);
+        x.undo();
+        Due.alike("what there is behind recur", Told.book(x), before);
+    }
+
+    private static void toldAheadOfIt() {
+        Due.sentence("Promises 39 to 41",
+                "Undoes .. Restores: of the last zone, meeting and occurrence, told ahead of it");
+        ZoneCompiler x = Given.full();
+        x.undo();
+        x.addMeeting(5, 40, 9, 1, 0, 40);
+        x.save();
+        int[] due = {1440 * 79 + 9, 0, 0, 1, 1440 * 79 + 9 - 10};
+        Due.row("occurrence(9, 39, ..)", i -> x.occurrence(9, 39, i + 1), due);
+        x.shift(9, 39, 1);
+        Due.same("the shift", x.occurrence(9, 39, 5), due[4] + 1);
+        x.undo();
+        Due.row("behind undo", i -> x.occurrence(9, 39, i + 1), due);
+        x.dropRule(5, 7);
+        Due.same("by other rules", x.occurrence(9, 39, 5), due[4] + 1);
+        x.undo();
+        Due.row("behind undo", i -> x.occurrence(9, 39, i + 1), due);
+        x.dropRule(5, 7);
+        x.recur(9, 0, 2, 0);
+        Due.same("in another way", x.occurrence(9, 39, 5), 1440 * 118 + 9 - 9);
+        x.restore();
+        Due.row("behind restore", i -> x.occurrence(9, 39, i + 1), due);
+        Due.same("the last offset", x.zone(5, 6), 10);
+    }
+
+    private static void ofAllThereCanBe() {
+        Due.sentence("Promises 39 to 41", "Undoes .. Saves .. Restores: as many zones and meetings as there can be");
+        String before = Told.book(Given.full());
+        ZoneCompiler x = Given.full();
+        x.shift(9, 0, 5);
+        x.cancel(9, 0);
+        x.dropRule(5, 7);
+        Due.row("undo", i -> x.undo(), 7, 6, 5);
+        Due.alike("what there is behind undo", Told.book(x), before);
+        ZoneCompiler y = Given.full();
+        Due.same("save()", y.save(), 6);
+        y.cancel(0, 0);
+        y.cancel(9, 0);
+        y.dropRule(5, 0);
+        Due.same("restore()", y.restore(), 6);
+        Due.alike("what there is behind restore", Told.book(y), before);
+        ZoneCompiler z = Given.full();
+        Due.thrown("run", Due.STATE, () -> Given.ran(z, "cancel:9,0;cancel:0,0;drop:5,7;drop:5,0;cancel:10,0;"));
+        Due.alike("what there is behind run", Told.book(z), before);
+        ZoneCompiler w = Given.full();
+        Due.range("zone(zone, 0)", Due.INDEX, 0, 5, zone -> w.zone(zone, 0));
+        Due.range("dayLength(zone, 0)", Due.INDEX, 0, 5, zone -> w.dayLength(zone, 0));
+        Due.range("rule(5, rule, 0)", Due.INDEX, 0, 7, rule -> w.rule(5, rule, 0));
+        Due.range("meeting(meeting, 0)", Due.INDEX, 0, 9, meeting -> w.meeting(meeting, 0));
+        Due.range("cancel(meeting, 0)", Due.INDEX, 0, 9, meeting -> w.cancel(meeting, 0));
+        Due.range("occurrence(meeting, 0, 0)", Due.INDEX, 0, 9, meeting -> w.occurrence(meeting, 0, 0));
+        Due.range("clash(0, meeting)", Due.INDEX, 0, 9, meeting -> w.clash(0, meeting));
+        Due.range("drift(meeting, 5)", Due.INDEX, 0, 9, meeting -> w.drift(meeting, 5));
     }
 
     private static void counts() {
