@@ -302,8 +302,8 @@ public final class ZoneCompiler {
         int end = Calendar.yearStart(year + 1);
         switch (what) {
             case 0: return line.beginningOf(end) - line.beginningOf(first);
-            case 1: return line.countGaps(DAY * first, DAY * end);
-            case 2: return line.countFolds(DAY * first, DAY * end);
+            case 1: return line.countMinutes(DAY * first, DAY * end, true);
+            case 2: return line.countMinutes(DAY * first, DAY * end, false);
             default: return DAY * (end - first);
         }
     }
@@ -1238,26 +1238,18 @@ public final class ZoneCompiler {
             return instantOf(DAY * day, 2);
         }
 
-        /** Goes from edge to edge, since between two of them all local times have equally many instants. */
-        int countGaps(int from, int until) {
+        /**
+         * The minutes in gaps, or the instants, less 1, of the minutes in folds. Goes from edge to edge, since between
+         * two of them all local times have equally many instants.
+         */
+        int countMinutes(int from, int until, boolean inGaps) {
             int sum = 0;
             int at = from;
             for (int step = 0; step <= 2 * transitions && at < until; step++) {
                 int end = nextEdge(at, until);
                 look(at);
-                sum += found == 0 ? end - at : 0;
-                at = end;
-            }
-            return sum;
-        }
-
-        int countFolds(int from, int until) {
-            int sum = 0;
-            int at = from;
-            for (int step = 0; step <= 2 * transitions && at < until; step++) {
-                int end = nextEdge(at, until);
-                look(at);
-                sum += found > 1 ? (found - 1) * (end - at) : 0;
+                int each = inGaps ? 1 - found : found - 1;
+                sum += Math.max(each, 0) * (end - at);
                 at = end;
             }
             return sum;

@@ -81,8 +81,8 @@ public final class CalendarEdgeTest {
                 int at = month;
                 int most = LENGTHS[month - 1] + (month == 2 && year == 0 ? 1 : 0);
                 int length = year;
-                Due.range("day(" + year + ", " + month + ", day)", Due.ARGUMENT, 1, most, day -> x.day(length, at,
-                        day));
+                Due.range("day(" + year + ", " + month + ", day)", Due.ARGUMENT, 1, most,
+                        day -> x.day(length, at, day));
             }
         }
     }

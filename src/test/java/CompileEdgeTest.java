@@ -40,8 +40,8 @@ public final class CompileEdgeTest {
 
     private static void eventsOfRules() {
         Due.sentence(COMPILING, "one for each of their years in which there is one");
-        int[][] due = {{0, 1, 31, 1}, {31, 1, 31, 32}, {3131, 12, 31, 1}, {31, 2, 29, 8}, {103, 2, 29, 0}, {104, 2, 29,
-                1},
+        int[][] due = {{0, 1, 31, 1}, {31, 1, 31, 32}, {3131, 12, 31, 1}, {31, 2, 29, 8}, {103, 2, 29, 0},
+            {104, 2, 29, 1},
             {408, 2, 29, 2}, {31, 2, 30, 0}, {31, 4, 31, 0}};
         for (int[] at : due) {
             ZoneCompiler x = Given.zone(0);

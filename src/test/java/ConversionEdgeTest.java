@@ -199,14 +199,14 @@ public final class ConversionEdgeTest {
     private static void modeThree() {
         Due.sentence(MODES, "3, the only one, and in a gap or a fold none");
         ZoneCompiler x = zone();
-        Due.outside("toInstant(0, local, 3)", Due.UNSUPPORTED, local -> x.toInstant(0, local, 3), GAP, GAP + 59, FOLD,
-                FOLD + 59);
-        Due.outside("convert(0, local, 0, 3)", Due.UNSUPPORTED, local -> x.convert(0, local, 0, 3), GAP, GAP + 59, FOLD,
-                FOLD + 59);
+        Due.outside("toInstant(0, local, 3)", Due.UNSUPPORTED, local -> x.toInstant(0, local, 3),
+                GAP, GAP + 59, FOLD, FOLD + 59);
+        Due.outside("convert(0, local, 0, 3)", Due.UNSUPPORTED, local -> x.convert(0, local, 0, 3),
+                GAP, GAP + 59, FOLD, FOLD + 59);
         Due.outside("of three", Due.UNSUPPORTED, local -> threeTimes().toInstant(0, local, 3), 1440 * 20 + 300);
         Due.inside("toInstant(0, local, 3)", local -> x.toInstant(0, local, 3), GAP - 1, GAP + 60, FOLD - 1, FOLD + 60);
-        Due.inside("convert(0, local, 0, 3)", local -> x.convert(0, local, 0, 3), GAP - 1, GAP + 60, FOLD - 1,
-                FOLD + 60);
+        Due.inside("convert(0, local, 0, 3)", local -> x.convert(0, local, 0, 3),
+                GAP - 1, GAP + 60, FOLD - 1, FOLD + 60);
     }
 
     private static void outsideAllModesAreAlike() {

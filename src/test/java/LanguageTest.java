@@ -38,8 +38,7 @@ import javax.tools.ToolProvider;
 public final class LanguageTest extends TreePathScanner<Void, Void> {
 
     private static final File SOURCE = new File("src/main/java/ZoneCompiler.java");
-    /** Name, parameters, result of each method, exceptions: i index, a argument, s state, n no element,
-            u unsupported. */
+    /** Name, parameters, result of each method, exceptions: i index, a argument, s state, n no element, u unsupported. */
     private static final String FACE = """
             day 3 int a, date 2 int ia, addZone 1 int as, changeBase 3 int ias, addRule 6 int ias, dropRule 2 int i, \
             zone 2 int ia, rule 3 int ia, eventDay 3 int ian, transition 3 int ian, voidEvent 3 int ian, \

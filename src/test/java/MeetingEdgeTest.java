@@ -61,8 +61,8 @@ public final class MeetingEdgeTest {
         Due.range("the minute", Due.ARGUMENT, 0, 1439, minute -> Given.zone(0).addMeeting(0, 0, minute, 1, 0, 1));
         Due.range("the duration", Due.ARGUMENT, 1, 1440, minutes -> Given.zone(0).addMeeting(0, 0, 0, minutes, 0, 1));
         Due.range("the mode", Due.ARGUMENT, 0, 3, mode -> Given.zone(0).addMeeting(0, 0, 0, 1, mode, 1));
-        Due.range("the number of occurrences", Due.ARGUMENT, 1, 40, many -> Given.zone(0).addMeeting(0, 0, 0, 1, 0,
-                many));
+        Due.range("the number of occurrences", Due.ARGUMENT, 1, 40,
+                many -> Given.zone(0).addMeeting(0, 0, 0, 1, 0, many));
     }
 
     private static void aNewMeeting() {
@@ -294,8 +294,8 @@ public final class MeetingEdgeTest {
 
     private static void shifted() {
         Due.sentence("Promise 26", "its shift from now on, -1440 to 1440");
-        Due.range("shift(0, 0, minutes)", Due.ARGUMENT, -1440, 1440, minutes -> Given.meeting(5, 3).shift(0, 0,
-                minutes));
+        Due.range("shift(0, 0, minutes)", Due.ARGUMENT, -1440, 1440,
+                minutes -> Given.meeting(5, 3).shift(0, 0, minutes));
         Due.sentence("Promise 26", "Returns its previous shift");
         ZoneCompiler x = Given.meeting(5, 40);
         int[] shifts = {1440, -1440, 0, 7};

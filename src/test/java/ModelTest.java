@@ -8,8 +8,7 @@ import java.util.Map;
 
 /**
  * Runs of calls with many kinds of arguments, answered by ZoneCompiler and by PlainModel: both must answer alike.
- * The numbers come from a fixed sequence, so that a run is the same each time. Arguments: the number of runs,
-         the first.
+ * The numbers come from a fixed sequence, so that a run is the same each time. Arguments: the number of runs, the first.
  */
 public final class ModelTest {
 
@@ -74,8 +73,7 @@ public final class ModelTest {
                 method++;
             }
             // At first zones and rules, so that there is something to ask about.
-            String name = call < 24 ? new String[] {"addZone", "addRule", "addRule",
-                    "changeBase"}[below(4)] : FACE[method];
+            String name = call < 24 ? new String[] {"addZone", "addRule", "addRule", "changeBase"}[below(4)] : FACE[method];
             if (name.equals("run")) {
                 String text = below(12) == 0 ? "" : text();
                 for (int i = 0; i < text.length() && call < CALLS - 1; call++) {
@@ -226,8 +224,7 @@ public final class ModelTest {
 
     private static int years() {
         int first = crowded ? below(2) : about(0, 31);
-        int last = crowded ? from(first, 3) : below(10) == 0 ? about(0, 31) : from(Math.min(Math.max(first, 0), 31),
-                31);
+        int last = crowded ? from(first, 3) : below(10) == 0 ? about(0, 31) : from(Math.min(Math.max(first, 0), 31), 31);
         return below(3) == 0 ? 31 : 100 * first + last;
     }
 
@@ -269,8 +266,7 @@ public final class ModelTest {
             case "zone": return all(zone, about(0, 8));
             case "rule": return all(zone, rule(zone), about(0, 6));
             case "eventDay": return all(zone, rule(zone), about(0, 31));
-            case "transition": return all(zone, about(0, hasZone ? Math.max(0, model.zone(zone, 3) - 1) : 0), about(0,
-                    4));
+            case "transition": return all(zone, about(0, hasZone ? Math.max(0, model.zone(zone, 3) - 1) : 0), about(0, 4));
             case "voidEvent":
                 for (int i = 0; i < zones && below(8) > 0; i++) {
                     if (model.zone(i, 4) > 0) {
@@ -296,8 +292,7 @@ public final class ModelTest {
             case "occurrence": return all(meeting, occurrence(meeting), about(0, 5));
             case "next": return all(meeting, beginning(meeting));
             case "clash": return all(meeting, below(4) == 0 ? meeting : meeting());
-            case "agenda": return all(beginning(meeting), about(0, below(2) == 0 ? 3 : Math.max(0,
-                    model.count(3) - 1)));
+            case "agenda": return all(beginning(meeting), about(0, below(2) == 0 ? 3 : Math.max(0, model.count(3) - 1)));
             case "drift": return all(meeting, zone);
             case "free": return free(meeting);
             case "append": return all(packedOf(below(5)));

@@ -789,8 +789,7 @@ final class PlainModel {
 
     int append(int packed) {
         StringBuilder more = new StringBuilder();
-        for (byte letter : new byte[] {(byte) (packed >> 24), (byte) (packed >> 16), (byte) (packed >> 8),
-                (byte) packed}) {
+        for (byte letter : new byte[] {(byte) (packed >> 24), (byte) (packed >> 16), (byte) (packed >> 8), (byte) packed}) {
             if (letter != 0) {
                 argument(in(letter, 33, 126));
                 more.append((char) letter);

@@ -280,7 +280,7 @@ public final class PromiseTest {
         ZoneCompiler x = Given.europe();
         int spring = 1440 * Given.SPRING + 60;
         int[][] due = {{-2000, 60}, {spring - 1, 60}, {spring, 120}, {1440 * Given.AUTUMN + 59, 120},
-                {1440 * Given.AUTUMN + 60, 60},
+            {1440 * Given.AUTUMN + 60, 60},
             {16832719, 60}};
         for (int[] at : due) {
             Due.same(13, "offset(0, " + at[0] + ")", x.offset(0, at[0]), at[1]);
@@ -433,8 +433,8 @@ public final class PromiseTest {
 
     private static void addMeeting() {
         ZoneCompiler x = Given.europe();
-        int[][] wrong = {{-1, 0, 60, 0, 1}, {11688, 0, 60, 0, 1}, {0, -1, 60, 0, 1}, {0, 1440, 60, 0, 1}, {0, 0, 0, 0,
-                1},
+        int[][] wrong = {{-1, 0, 60, 0, 1}, {11688, 0, 60, 0, 1}, {0, -1, 60, 0, 1}, {0, 1440, 60, 0, 1},
+            {0, 0, 0, 0, 1},
             {0, 0, 1441, 0, 1}, {0, 0, 60, -1, 1}, {0, 0, 60, 4, 1}, {0, 0, 60, 0, 0}, {0, 0, 60, 0, 41},
             {MOST, MOST, MOST, MOST, MOST}, {LEAST, LEAST, LEAST, LEAST, LEAST}};
         for (int[] at : wrong) {
@@ -834,8 +834,8 @@ public final class PromiseTest {
         String[] due = {"2000,2031,3,l6,120,w,60", "2000,2000,1,1x0,0,b,0", "2031,2031,12,4x6,1439,i,120",
             "2009,2010,10,6>31,60,w,5", "2010,2011,2,0>1,600,b,10", "2000,2031,1,7,1,i,1", "2000,2031,1,31,10,w,100",
             "2000,2031,1,l0,1000,b,99"};
-        int[][] rules = {{31, 3, 1200, 60}, {0, 1, 1, 0}, {3131, 12, 14392, 120}, {910, 10, 600, 5}, {1011, 2, 6001,
-                10},
+        int[][] rules = {{31, 3, 1200, 60}, {0, 1, 1, 0}, {3131, 12, 14392, 120}, {910, 10, 600, 5},
+            {1011, 2, 6001, 10},
             {31, 1, 12, 1}, {31, 1, 100, 100}, {31, 1, 10001, 99}};
         for (int i = 0; i < 8; i++) {
             x.addRule(0, rules[i][0], rules[i][1], dates[i], rules[i][2], rules[i][3]);

@@ -246,8 +246,8 @@ public final class SearchEdgeTest {
     private static void agendaEntriesThatAreNot() {
         Due.sentence("Promise 31", "the index, from 0; Throws NoSuchElementException if there is no such entry");
         Due.range("agenda(0, index)", Due.ELEMENT, 0, 2, index -> meeting(5, 0, 60, 3).agenda(0, index));
-        Due.range("agenda(FIFTH + 1, index)", Due.ELEMENT, 0, 1, index -> meeting(5, 0, 60, 3).agenda(FIFTH + 1,
-                index));
+        Due.range("agenda(FIFTH + 1, index)", Due.ELEMENT, 0, 1,
+                index -> meeting(5, 0, 60, 3).agenda(FIFTH + 1, index));
         Due.thrown("without meetings", Due.ELEMENT, () -> Given.zone(0).agenda(0, 0));
     }
 

@@ -111,9 +111,8 @@ public final class TextEdgeTest {
         for (int place = 0; place <= 24; place += 8) {
             int at = place;
             Due.inside("append at " + place, letter -> new ZoneCompiler().append(letter << at), 0, 33, 126);
-            Due.outside("append at " + place, Due.ARGUMENT, letter -> new ZoneCompiler().append(letter << at), 1, 32,
-                    127,
-                    128, 161, 255);
+            Due.outside("append at " + place, Due.ARGUMENT, letter -> new ZoneCompiler().append(letter << at),
+                    1, 32, 127, 128, 161, 255);
         }
         ZoneCompiler x = new ZoneCompiler();
         Due.thrown("a last byte", Due.ARGUMENT, () -> x.append(0x61616120));
@@ -567,8 +566,8 @@ public final class TextEdgeTest {
 
     private static void charactersThatAreNot() {
         Due.sentence("Promise 38", "a character of the written text, which is empty at first");
-        Due.outside("character(index)", Due.INDEX, index -> Given.europe().character(index), -1, 0, 1,
-                Integer.MIN_VALUE, Integer.MAX_VALUE);
+        Due.outside("character(index)", Due.INDEX, index -> Given.europe().character(index),
+                -1, 0, 1, Integer.MIN_VALUE, Integer.MAX_VALUE);
         Due.sentence("Promise 38", "Throws IndexOutOfBoundsException if there is no such index");
         ZoneCompiler x = Given.europe();
         int length = x.write(0, 0);

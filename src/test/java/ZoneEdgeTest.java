@@ -92,11 +92,10 @@ public final class ZoneEdgeTest {
     private static void yearsOfRules() {
         Due.sentence("Promise 6",
                 "100 times the number of the first year plus that of the last one, which is not less");
-        Due.inside("addRule of years", years -> Given.zone(0).addRule(0, years, 1, 1, 0, 0), 0, 31, 101, 131, 1515,
-                3031,
-                3131);
-        Due.outside("addRule of years", Due.ARGUMENT, years -> Given.zone(0).addRule(0, years, 1, 1, 0, 0), -1, 32, 99,
-                100, 132, 1514, 3032, 3130, 3132, 3199, 3200, 3232, -69, -100, -3131, Integer.MIN_VALUE,
+        Due.inside("addRule of years", years -> Given.zone(0).addRule(0, years, 1, 1, 0, 0),
+                0, 31, 101, 131, 1515, 3031, 3131);
+        Due.outside("addRule of years", Due.ARGUMENT, years -> Given.zone(0).addRule(0, years, 1, 1, 0, 0),
+                -1, 32, 99, 100, 132, 1514, 3032, 3130, 3132, 3199, 3200, 3232, -69, -100, -3131, Integer.MIN_VALUE,
                 Integer.MAX_VALUE);
         ZoneCompiler x = Given.zone(0);
         x.addRule(0, 31, 1, 1, 0, 0);
@@ -107,10 +106,10 @@ public final class ZoneEdgeTest {
 
     private static void minutesOfRules() {
         Due.sentence("Promise 6", "10 times the minute of the day plus the clock");
-        Due.inside("addRule when", when -> Given.zone(0).addRule(0, 0, 1, 1, when, 0), 0, 1, 2, 10, 14390, 14391,
-                14392);
-        Due.outside("addRule when", Due.ARGUMENT, when -> Given.zone(0).addRule(0, 0, 1, 1, when, 0), -1, -8, -10, 3, 9,
-                14393, 14399, 14400, 14402, Integer.MIN_VALUE, Integer.MAX_VALUE);
+        Due.inside("addRule when", when -> Given.zone(0).addRule(0, 0, 1, 1, when, 0),
+                0, 1, 2, 10, 14390, 14391, 14392);
+        Due.outside("addRule when", Due.ARGUMENT, when -> Given.zone(0).addRule(0, 0, 1, 1, when, 0),
+                -1, -8, -10, 3, 9, 14393, 14399, 14400, 14402, Integer.MIN_VALUE, Integer.MAX_VALUE);
         ZoneCompiler x = Given.zone(0);
         x.addRule(0, 0, 1, 1, 14392, 0);
         Due.same("the last minute", x.rule(0, 0, 4), 1439);
@@ -120,9 +119,8 @@ public final class ZoneEdgeTest {
     private static void clocks() {
         Due.sentence(RULES, "A clock is 0 for the wall, 1 for the base, or 2 for the instants");
         Due.inside("addRule of a clock", clock -> Given.zone(0).addRule(0, 0, 1, 1, 600 + clock, 0), 0, 1, 2);
-        Due.outside("addRule of a clock", Due.ARGUMENT, clock -> Given.zone(0).addRule(0, 0, 1, 1, 600 + clock, 0), 3,
-                4,
-                9);
+        Due.outside("addRule of a clock", Due.ARGUMENT, clock -> Given.zone(0).addRule(0, 0, 1, 1, 600 + clock, 0),
+                3, 4, 9);
     }
 
     private static void savings() {
@@ -132,12 +130,12 @@ public final class ZoneEdgeTest {
 
     private static void dates() {
         Due.sentence(RULES, "A date is a number: from 1 to 31 ..; 100 * n + w ..; 500 + w ..; 1000 + 10 * m + w");
-        Due.inside("addRule of a date", date -> Given.zone(0).addRule(0, 0, 1, date, 0, 0), 1, 31, 100, 106, 200, 206,
-                300, 306, 400, 406, 500, 506, 1010, 1016, 1020, 1306, 1310, 1316);
-        Due.outside("addRule of a date", Due.ARGUMENT, date -> Given.zone(0).addRule(0, 0, 1, date, 0, 0), 0, -1, 32,
-                99,
-                107, 199, 207, 299, 307, 399, 407, 499, 507, 599, 600, 606, 700, 906, 999, 1000, 1006, 1009, 1017, 1019,
-                1027, 1307, 1309, 1317, 1319, 1320, 1326, 2010, -100, -506, Integer.MIN_VALUE, Integer.MAX_VALUE);
+        Due.inside("addRule of a date", date -> Given.zone(0).addRule(0, 0, 1, date, 0, 0),
+                1, 31, 100, 106, 200, 206, 300, 306, 400, 406, 500, 506, 1010, 1016, 1020, 1306, 1310, 1316);
+        Due.outside("addRule of a date", Due.ARGUMENT, date -> Given.zone(0).addRule(0, 0, 1, date, 0, 0),
+                0, -1, 32, 99, 107, 199, 207, 299, 307, 399, 407, 499, 507, 599, 600, 606, 700, 906, 999, 1000, 1006,
+                1009, 1017, 1019, 1027, 1307, 1309, 1317, 1319, 1320, 1326, 2010, -100, -506, Integer.MIN_VALUE,
+                Integer.MAX_VALUE);
     }
 
     /** The answer of eventDay for a rule of a date in a month of all years, -1 if there is none. */
